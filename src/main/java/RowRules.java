@@ -28,7 +28,7 @@ public final class RowRules {
 
     public RowRules() {
         Met met = new Met();
-        words = new Words(met, new Met());
+        words = new Words(met);
         parting = new Parting(met);
         mapping = new Mapping(met);
     }
@@ -278,7 +278,8 @@ public final class RowRules {
             h = 31 * h + count(what);
         }
         for (int i = 0; i < graphCount; i++) {
-            h = digestOfSet(h, i);
+            Graph g = graphAt(i);
+            h = g == null ? h : g.digestOn(h);
         }
         for (int i = 0; i < wordSize; i++) {
             h = 31 * h + word[i];
@@ -287,15 +288,6 @@ public final class RowRules {
     }
 
     // ---- help for the calls
-
-    private long digestOfSet(long before, int set) {
-        long h = before;
-        for (int what = 0; what <= 4; what++) {
-            h = 31 * h + about(set, what);
-        }
-        Graph g = graphAt(set);
-        return g == null ? h : g.digestOn(h);
-    }
 
     private Graph graphAt(int set) {
         return within(set, 0, graphCount - 1) ? graphs[set] : null;
@@ -449,7 +441,11 @@ public final class RowRules {
         }
 
         long digestOn(long before) {
-            long h = before;
+            long h = 31 * before + letters;
+            h = 31 * h + states;
+            h = 31 * h + ways;
+            h = 31 * h + Integer.bitCount(alive);
+            h = 31 * h + liveWays;
             for (int state = 0; state < states; state++) {
                 for (int letter = 0; letter < letters; letter++) {
                     h = 31 * h + ends[state * MOST_LETTERS + letter];
@@ -578,7 +574,7 @@ public final class RowRules {
 
         int size;
         private int[] keys = new int[FIRST_ROOM];
-        private long[] notes = new long[FIRST_ROOM];
+        private int[] notes = new int[FIRST_ROOM];
         /** Base + place of a key. What is less was put before the last clear, and so is free. */
         private int[] slots = new int[2 * FIRST_ROOM];
         private int base = 1;
@@ -596,14 +592,19 @@ public final class RowRules {
             return within(place, 0, size - 1) ? keys[place] : 0;
         }
 
-        long noteAt(int place) {
+        int noteAt(int place) {
             return within(place, 0, size - 1) ? notes[place] : 0;
         }
 
-        void addToNote(int place, long more) {
+        void putNote(int place, int note) {
             if (within(place, 0, size - 1)) {
-                notes[place] += more;
+                notes[place] = note;
             }
+        }
+
+        /** How many find room before it grows. */
+        int room() {
+            return keys.length;
         }
 
         /** A key that was not met yet comes behind the others, with the note 0. */
@@ -654,49 +655,80 @@ public final class RowRules {
     static final class Words {
         static final int MOST_ROUND = 7;
 
-        /** By sets of states: how many words lead just there. */
-        private Met now;
-        private Met next;
+        /** Sets of states to which words lead. */
+        private final Met met;
+        /** The place of the set to which a letter leads from one, or NONE, by 4 * its place + letter. */
+        private int[] behind = new int[MOST_LETTERS];
+        /** How many words lead to a set, by its place. */
+        private long[] many = new long[1];
+        private long[] longer = new long[1];
         private final int[] row = new int[MOST_ROUND];
         /** Where the first letters of the row lead. */
         private final int[] led = new int[MOST_ROUND + 1];
 
-        Words(Met now, Met next) {
-            this.now = now;
-            this.next = next;
+        Words(Met met) {
+            this.met = met;
         }
 
         long standing(Graph g, int n) {
-            now.clear();
+            met.clear();
             if (g.alive == 0) {
                 return 0;
             }
-            now.addToNote(now.placeOf(g.alive), 1);
+            met.placeOf(g.alive);
+            makeRoom();
+            many[0] = 1;
+            int linked = 0;
             for (int i = 0; i < n; i++) {
-                goOn(g);
+                int known = met.size;
+                linkOn(g, linked, known);
+                linked = known;
+                makeRoom();
+                countLonger(g.letters, known);
             }
             long sum = 0;
-            for (int place = 0; place < now.size; place++) {
-                sum += now.noteAt(place);
+            for (int place = 0; place < met.size; place++) {
+                sum += many[place];
             }
             return sum;
         }
 
-        private void goOn(Graph g) {
-            next.clear();
-            for (int place = 0; place < now.size; place++) {
-                int from = now.keyAt(place);
-                long words = now.noteAt(place);
+        private void makeRoom() {
+            int room = met.room();
+            if (many.length < room) {
+                many = Arrays.copyOf(many, room);
+                longer = Arrays.copyOf(longer, room);
+                behind = Arrays.copyOf(behind, MOST_LETTERS * room);
+            }
+        }
+
+        /** Where letters lead from a set is looked for once, however often words of other lengths lead there. */
+        private void linkOn(Graph g, int linked, int known) {
+            for (int place = linked; place < known; place++) {
+                int from = met.keyAt(place);
                 for (int letter = 0; letter < g.letters; letter++) {
                     int to = g.step(from, letter);
-                    if (to != 0) {
-                        next.addToNote(next.placeOf(to), words);
+                    behind[place * MOST_LETTERS + letter] = to == 0 ? NONE : met.placeOf(to);
+                }
+            }
+        }
+
+        private void countLonger(int letters, int known) {
+            for (int place = 0; place < met.size; place++) {
+                longer[place] = 0;
+            }
+            for (int place = 0; place < known; place++) {
+                long words = many[place];
+                for (int letter = 0; letter < letters && words != 0; letter++) {
+                    int to = behind[place * MOST_LETTERS + letter];
+                    if (to >= 0) {
+                        longer[to] += words;
                     }
                 }
             }
-            Met hold = now;
-            now = next;
-            next = hold;
+            long[] hold = many;
+            many = longer;
+            longer = hold;
         }
 
         int comingRound(Graph g, int n) {
@@ -787,7 +819,7 @@ public final class RowRules {
             int before = met.size;
             int place = met.placeOf(key);
             if (place == before) {
-                met.addToNote(place, 4L * from + letter);
+                met.putNote(place, MOST_LETTERS * from + letter);
             }
             return met.size > MOST_MET;
         }
@@ -801,8 +833,8 @@ public final class RowRules {
                 if (i < into.length) {
                     into[i] = letter;
                 }
-                letter = (int) (met.noteAt(pair) & 3);
-                pair = (int) (met.noteAt(pair) >> 2);
+                letter = met.noteAt(pair) % MOST_LETTERS;
+                pair = met.noteAt(pair) / MOST_LETTERS;
             }
             return Math.min(length, into.length);
         }
@@ -814,7 +846,7 @@ public final class RowRules {
             int length = 1;
             int pair = lastPair;
             for (int i = 0; i < MOST_MET && pair > 0; i++) {
-                pair = (int) (met.noteAt(pair) >> 2);
+                pair = met.noteAt(pair) / MOST_LETTERS;
                 length++;
             }
             return length;
@@ -844,8 +876,11 @@ public final class RowRules {
                 int key = met.keyAt(at);
                 for (int letter = 0; letter < a.letters; letter++) {
                     int ends = a.liveEnds(key >> 22 & 15, letter);
-                    int rest = ends == 0 ? 0 : behind(key, letter, b, pane);
-                    if (ends != 0 && (rest & 0xFFFF) == 0) {
+                    if (ends == 0) {
+                        continue;
+                    }
+                    int rest = behind(key, letter, b, pane);
+                    if ((rest & 0xFFFF) == 0) {
                         return 0;
                     }
                     meetAll(ends, rest);

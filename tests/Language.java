@@ -1,0 +1,204 @@
+import com.sun.source.tree.*;
+import com.sun.source.util.JavacTask;
+import com.sun.source.util.SourcePositions;
+import com.sun.source.util.TreeScanner;
+import com.sun.source.util.Trees;
+import java.io.File;
+import java.lang.reflect.Constructor;
+import java.lang.reflect.Field;
+import java.lang.reflect.Method;
+import java.lang.reflect.Modifier;
+import java.nio.file.Files;
+import java.nio.file.Path;
+import java.util.List;
+import java.util.Set;
+import java.util.TreeSet;
+import javax.lang.model.element.TypeElement;
+import javax.lang.model.element.VariableElement;
+import javax.lang.model.element.ExecutableElement;
+import javax.tools.JavaCompiler;
+import javax.tools.ToolProvider;
+
+/** What of LANGUAGE.md can be seen in the source and in the compiled class, and the face that the document tells. */
+public final class Language {
+    private static final String FILE = "src/main/java/RowRules.java";
+    private static final Set<String> LIBRARY = Set.of("java.util.Arrays.fill", "java.util.Arrays.copyOf", "java.util.Arrays.copyOfRange",
+        "java.lang.System.arraycopy", "java.lang.Math.max", "java.lang.Math.min", "java.lang.Math.abs", "java.lang.Integer.bitCount",
+        "java.lang.Object.<init>");
+    private static final String[] FACE = {
+        "int set(int,int)", "int way(int,int,int,int)", "int unway(int,int,int,int)", "int empty()", "int letter(int)", "int letterAt(int)",
+        "int forbid()", "int unforbid()", "int byWords(int)", "int about(int,int)", "int live(int,int)", "int may(int)", "long howMany(int,int)",
+        "long loops(int,int)", "int rounds(int,int)", "long growth(int,int,int)", "int same(int,int)", "int part(int,int)", "int pace(int,int)",
+        "int window(int)", "int tells(int,int)", "int maps(int,int)", "int weights(int,int,int,int)", "int weight(int,int,int,int,int)",
+        "int count(int)", "long digest()"};
+    private static int wrong = 0;
+
+    private static void rule(int number, boolean kept, String what) {
+        if (!kept) {
+            wrong++;
+            System.out.println("rule " + number + ": " + what);
+        }
+    }
+
+    public static void main(String[] args) throws Exception {
+        lookAtFace();
+        lookAtClasses();
+        lookAtSource();
+        System.out.println(wrong == 0 ? "the rules that can be seen are kept" : wrong + " places against the rules");
+        if (wrong != 0) {
+            System.exit(1);
+        }
+    }
+
+    private static void lookAtFace() {
+        Set<String> want = new TreeSet<>(List.of(FACE));
+        Set<String> got = new TreeSet<>();
+        Set<String> names = new TreeSet<>();
+        for (Method m : RowRules.class.getDeclaredMethods()) {
+            if (Modifier.isPublic(m.getModifiers())) {
+                StringBuilder text = new StringBuilder(m.getReturnType() + " " + m.getName() + "(");
+                for (Class<?> p : m.getParameterTypes()) {
+                    text.append(text.charAt(text.length() - 1) == '(' ? "" : ",").append(p);
+                }
+                got.add(text + ")");
+                names.add(m.getName());
+                rule(1, !Modifier.isStatic(m.getModifiers()), m + " is static");
+            } else {
+                rule(1, Modifier.isPrivate(m.getModifiers()), m + " can be seen");
+            }
+        }
+        rule(1, want.equals(got), "the face is " + got);
+        rule(1, Modifier.isFinal(RowRules.class.getModifiers()) && Modifier.isPublic(RowRules.class.getModifiers()), "the class is not public and final");
+        Constructor<?>[] made = RowRules.class.getDeclaredConstructors();
+        rule(1, made.length == 1 && Modifier.isPublic(made[0].getModifiers()) && made[0].getParameterCount() == 0, "constructors");
+        for (Field f : RowRules.class.getDeclaredFields()) {
+            boolean told = Set.of("NONE", "BAD", "NO", "FULL", "SPENT").contains(f.getName());
+            rule(1, told ? Modifier.isPublic(f.getModifiers()) : Modifier.isPrivate(f.getModifiers()), f + " can be seen");
+        }
+        for (Class<?> c : RowRules.class.getDeclaredClasses()) {
+            for (Method m : c.getDeclaredMethods()) {
+                rule(1, !names.contains(m.getName()), m + " bears a name of the face");
+            }
+        }
+        for (Method m : RowRules.class.getDeclaredMethods()) {
+            rule(1, Modifier.isPublic(m.getModifiers()) || !names.contains(m.getName()), m + " bears a name of the face");
+        }
+    }
+
+    private static void lookAtClasses() {
+        Class<?>[] inside = RowRules.class.getDeclaredClasses();
+        rule(11, inside.length <= 11, "too many classes");
+        lookAtFields(RowRules.class);
+        for (Class<?> c : inside) {
+            rule(2, Modifier.isStatic(c.getModifiers()), c + " is not static");
+            rule(1, !Modifier.isPublic(c.getModifiers()) && !Modifier.isProtected(c.getModifiers()), c + " can be seen");
+            rule(2, c.getDeclaredClasses().length == 0, c + " has classes inside");
+            lookAtFields(c);
+        }
+    }
+
+    private static void lookAtFields(Class<?> c) {
+        int own = 0;
+        for (Field f : c.getDeclaredFields()) {
+            if (!Modifier.isStatic(f.getModifiers())) {
+                own++;
+            } else {
+                rule(5, Modifier.isFinal(f.getModifiers()) && (f.getType().isPrimitive() || f.getType() == String.class), f + " is static state");
+            }
+        }
+        rule(11, own <= 20, c + " has " + own + " fields");
+    }
+
+    private static void lookAtSource() throws Exception {
+        String source = Files.readString(Path.of(FILE));
+        rule(4, source.chars().allMatch(sign -> sign == '\n' || sign >= 32 && sign < 127), "signs");
+        JavaCompiler compiler = ToolProvider.getSystemJavaCompiler();
+        var files = compiler.getStandardFileManager(null, null, null);
+        JavacTask task = (JavacTask) compiler.getTask(null, files, null, List.of("-proc:none"), null, files.getJavaFileObjects(new File(FILE)));
+        CompilationUnitTree unit = task.parse().iterator().next();
+        task.analyze();
+        Look look = new Look(unit, Trees.instance(task));
+        rule(1, unit.getPackageName() == null, "a package line");
+        rule(1, unit.getTypeDecls().size() == 1, "more than one class outside");
+        for (ImportTree i : unit.getImports()) {
+            rule(4, Set.of("java.util.Arrays", "java.util.List", "java.util.ArrayList").contains(i.getQualifiedIdentifier().toString()), i.toString());
+        }
+        look.scan(unit, null);
+    }
+
+    private static final class Look extends TreeScanner<Void, Void> {
+        final CompilationUnitTree unit;
+        final Trees trees;
+        final SourcePositions places;
+        MethodTree within;
+
+        Look(CompilationUnitTree unit, Trees trees) {
+            this.unit = unit;
+            this.trees = trees;
+            places = trees.getSourcePositions();
+        }
+
+        long line(Tree t, boolean end) {
+            return unit.getLineMap().getLineNumber(end ? places.getEndPosition(unit, t) : places.getStartPosition(unit, t));
+        }
+
+        void never(int number, Tree t) {
+            rule(number, false, "line " + line(t, false) + ": " + t);
+        }
+
+        @Override public Void visitMethod(MethodTree t, Void v) {
+            rule(11, t.getParameters().size() <= 7, t.getName() + " takes too many parameters");
+            rule(11, line(t, true) - line(t, false) < 60, t.getName() + " is too long");
+            MethodTree outside = within;
+            within = t;
+            super.visitMethod(t, v);
+            within = outside;
+            return null;
+        }
+
+        @Override public Void visitMethodInvocation(MethodInvocationTree t, Void v) {
+            var element = trees.getElement(trees.getPath(unit, t.getMethodSelect()));
+            if (element instanceof ExecutableElement called) {
+                String owner = ((TypeElement) called.getEnclosingElement()).getQualifiedName().toString();
+                String name = owner + "." + called.getSimpleName();
+                rule(4, owner.startsWith("RowRules") || LIBRARY.contains(name), name + " is called");
+                boolean itself = within != null && trees.getElement(trees.getPath(unit, within)).equals(called);
+                rule(8, !itself, name + " calls itself");
+            }
+            return super.visitMethodInvocation(t, v);
+        }
+
+        @Override public Void visitVariable(VariableTree t, Void v) {
+            String type = String.valueOf(t.getType());
+            Set<String> own = Set.of("Graph", "Barred", "Pane", "Met", "Words", "Parting", "Mapping", "Walks", "Parts");
+            String plain = type.replace("[]", "");
+            rule(3, own.contains(plain) || Set.of("int", "long", "boolean").contains(plain), "a variable of " + type);
+            var element = (VariableElement) trees.getElement(trees.getPath(unit, t));
+            rule(3, element != null, "an unknown variable " + t);
+            return super.visitVariable(t, v);
+        }
+
+        @Override public Void visitNewClass(NewClassTree t, Void v) {
+            if (t.getClassBody() != null) {
+                never(2, t);
+            }
+            return super.visitNewClass(t, v);
+        }
+
+        @Override public Void visitSwitch(SwitchTree t, Void v) {
+            for (CaseTree c : t.getCases()) {
+                rule(6, c.getCaseKind() == CaseTree.CaseKind.STATEMENT, "a case by an arrow");
+            }
+            return super.visitSwitch(t, v);
+        }
+
+        @Override public Void visitThrow(ThrowTree t, Void v) { never(6, t); return null; }
+        @Override public Void visitTry(TryTree t, Void v) { never(6, t); return null; }
+        @Override public Void visitSynchronized(SynchronizedTree t, Void v) { never(6, t); return null; }
+        @Override public Void visitAssert(AssertTree t, Void v) { never(6, t); return null; }
+        @Override public Void visitLambdaExpression(LambdaExpressionTree t, Void v) { never(2, t); return null; }
+        @Override public Void visitMemberReference(MemberReferenceTree t, Void v) { never(2, t); return null; }
+        @Override public Void visitSwitchExpression(SwitchExpressionTree t, Void v) { never(10, t); return null; }
+        @Override public Void visitAnnotation(AnnotationTree t, Void v) { never(4, t); return null; }
+    }
+}
