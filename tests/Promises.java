@@ -732,6 +732,19 @@ public final class Promises {
         due("20: the whole ring", x.pace(ring, 11), 16);
         x.way(ring, 3, 1, 3 + 10);
         due("20: a short cut of 15", x.pace(ring, 11), 1);
+        // three layers of five: each STATE leads to two of the next layer
+        int layers = x.set(2, 15);
+        for (int s = 0; s < 15; s++) {
+            int next = (s / 5 + 1) % 3 * 5;
+            x.way(layers, s, 0, next + s * 2 % 5);
+            x.way(layers, s, 0, next + (s + 3) % 5);
+        }
+        for (int s = 0; s < 15; s++) {
+            due("19: all layers", x.part(layers, s), 0);
+            due("20: of three layers", x.pace(layers, s), 3);
+        }
+        x.way(layers, 14, 1, 7);
+        due("20: a way back by one layer", x.pace(layers, 0), 1);
     }
 
     // ---- promises 21, 22
@@ -918,6 +931,16 @@ public final class Promises {
         x.way(2, 2, 0, 0);
         due("24: LIVE ones alone", x.weights(2, 1, 1, 9), 9);
         due("25: not LIVE", x.weight(2, 1, 1, 9, 1) + x.weight(2, 1, 1, 9, 2), 0);
+        // a little too much for it: they fall by and by, 153 times, till none are left
+        int slow = x.set(2, 6);
+        int[][] ways = {{3, 0, 4}, {4, 1, 0}, {0, 1, 3}, {5, 1, 2}, {1, 0, 3}, {3, 1, 5}, {4, 1, 5}, {2, 1, 4}, {0, 1, 1}, {4, 1, 1},
+            {5, 1, 3}, {1, 1, 1}, {2, 1, 5}, {2, 0, 5}, {2, 0, 1}, {4, 0, 4}, {3, 1, 1}, {3, 0, 0}};
+        for (int[] w : ways) {
+            due("way", x.way(slow, w[0], w[1], w[2]), 1);
+        }
+        due("24: all LIVE", x.about(slow, 3), 6);
+        due("24: by and by", x.weights(slow, 3, 2, 100), 0);
+        due("25: by and by", x.weight(slow, 3, 2, 100, 1), 0);
     }
 
     // ---- promises 26, 27
