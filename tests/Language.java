@@ -22,9 +22,15 @@ import javax.tools.ToolProvider;
 /** What of LANGUAGE.md can be seen in the source and in the compiled class, and the face that the document tells. */
 public final class Language {
     private static final String FILE = "src/main/java/RowRules.java";
-    private static final Set<String> LIBRARY = Set.of("java.util.Arrays.fill", "java.util.Arrays.copyOf", "java.util.Arrays.copyOfRange",
-        "java.lang.System.arraycopy", "java.lang.Math.max", "java.lang.Math.min", "java.lang.Math.abs", "java.lang.Integer.bitCount",
-        "java.lang.Object.<init>");
+    /** As patterns of whole names. */
+    private static final String[] LIBRARY = {
+        "java.lang.Object.<init>", "java.lang.String.(length|charAt|isEmpty|equals|indexOf|substring|toCharArray)",
+        "java.lang.StringBuilder.(append|charAt|setCharAt|setLength|deleteCharAt|reverse|length|toString)",
+        "java.util.(Array)?List.(add|get|set|remove|size|isEmpty|clear|iterator|of)",
+        "java.lang.(Integer|Long|Math).[a-z][A-Za-z]*(?<!Exact)", "java.util.Iterator.(hasNext|next)", "java.lang.Iterable.iterator",
+        "java.lang.Comparable.compareTo", "java.lang.System.arraycopy", "java.util.Arrays.(copyOf|copyOfRange|fill)", "Array.clone"};
+    private static final Set<String> TYPES = Set.of("int", "long", "short", "byte", "char", "boolean", "double", "float", "String",
+        "StringBuilder", "Integer", "ArrayList", "List", "Iterator");
     private static final String[] FACE = {
         "int set(int,int)", "int way(int,int,int,int)", "int unway(int,int,int,int)", "int empty()", "int letter(int)", "int letterAt(int)",
         "int forbid()", "int unforbid()", "int byWords(int)", "int about(int,int)", "int live(int,int)", "int may(int)", "long howMany(int,int)",
@@ -75,11 +81,6 @@ public final class Language {
             boolean told = Set.of("NONE", "BAD", "NO", "FULL", "SPENT").contains(f.getName());
             rule(1, told ? Modifier.isPublic(f.getModifiers()) : Modifier.isPrivate(f.getModifiers()), f + " can be seen");
         }
-        for (Class<?> c : RowRules.class.getDeclaredClasses()) {
-            for (Method m : c.getDeclaredMethods()) {
-                rule(1, !names.contains(m.getName()), m + " bears a name of the face");
-            }
-        }
         for (Method m : RowRules.class.getDeclaredMethods()) {
             rule(1, Modifier.isPublic(m.getModifiers()) || !names.contains(m.getName()), m + " bears a name of the face");
         }
@@ -92,7 +93,6 @@ public final class Language {
         for (Class<?> c : inside) {
             rule(2, Modifier.isStatic(c.getModifiers()), c + " is not static");
             rule(1, !Modifier.isPublic(c.getModifiers()) && !Modifier.isProtected(c.getModifiers()), c + " can be seen");
-            rule(2, c.getDeclaredClasses().length == 0, c + " has classes inside");
             lookAtFields(c);
         }
     }
@@ -103,7 +103,7 @@ public final class Language {
             if (!Modifier.isStatic(f.getModifiers())) {
                 own++;
             } else {
-                rule(5, Modifier.isFinal(f.getModifiers()) && (f.getType().isPrimitive() || f.getType() == String.class), f + " is static state");
+                rule(5, Modifier.isFinal(f.getModifiers()), f + " is static state");
             }
         }
         rule(11, own <= 20, c + " has " + own + " fields");
@@ -111,7 +111,7 @@ public final class Language {
 
     private static void lookAtSource() throws Exception {
         String source = Files.readString(Path.of(FILE));
-        rule(4, source.chars().allMatch(sign -> sign == '\n' || sign >= 32 && sign < 127), "signs");
+        rule(4, source.chars().allMatch(sign -> sign < 128), "signs");
         JavaCompiler compiler = ToolProvider.getSystemJavaCompiler();
         var files = compiler.getStandardFileManager(null, null, null);
         JavacTask task = (JavacTask) compiler.getTask(null, files, null, List.of("-proc:none"), null, files.getJavaFileObjects(new File(FILE)));
@@ -121,7 +121,7 @@ public final class Language {
         rule(1, unit.getPackageName() == null, "a package line");
         rule(1, unit.getTypeDecls().size() == 1, "more than one class outside");
         for (ImportTree i : unit.getImports()) {
-            rule(4, Set.of("java.util.Arrays", "java.util.List", "java.util.ArrayList").contains(i.getQualifiedIdentifier().toString()), i.toString());
+            rule(4, Set.of("java.util.Arrays", "java.util.List", "java.util.ArrayList", "java.util.Iterator").contains(i.getQualifiedIdentifier().toString()), i.toString());
         }
         look.scan(unit, null);
     }
@@ -130,7 +130,6 @@ public final class Language {
         final CompilationUnitTree unit;
         final Trees trees;
         final SourcePositions places;
-        MethodTree within;
 
         Look(CompilationUnitTree unit, Trees trees) {
             this.unit = unit;
@@ -148,12 +147,8 @@ public final class Language {
 
         @Override public Void visitMethod(MethodTree t, Void v) {
             rule(11, t.getParameters().size() <= 7, t.getName() + " takes too many parameters");
-            rule(11, line(t, true) - line(t, false) < 60, t.getName() + " is too long");
-            MethodTree outside = within;
-            within = t;
-            super.visitMethod(t, v);
-            within = outside;
-            return null;
+            rule(11, line(t, true) - line(t, false) < 70, t.getName() + " is too long");
+            return super.visitMethod(t, v);
         }
 
         @Override public Void visitMethodInvocation(MethodInvocationTree t, Void v) {
@@ -161,21 +156,36 @@ public final class Language {
             if (element instanceof ExecutableElement called) {
                 String owner = ((TypeElement) called.getEnclosingElement()).getQualifiedName().toString();
                 String name = owner + "." + called.getSimpleName();
-                rule(4, owner.startsWith("RowRules") || LIBRARY.contains(name), name + " is called");
-                boolean itself = within != null && trees.getElement(trees.getPath(unit, within)).equals(called);
-                rule(8, !itself, name + " calls itself");
+                rule(4, owner.startsWith("RowRules") || isInLibrary(name), name + " is called");
             }
             return super.visitMethodInvocation(t, v);
         }
 
+        private boolean isInLibrary(String name) {
+            for (String some : LIBRARY) {
+                if (name.matches(some)) {
+                    return true;
+                }
+            }
+            return false;
+        }
+
         @Override public Void visitVariable(VariableTree t, Void v) {
             String type = String.valueOf(t.getType());
-            Set<String> own = Set.of("Graph", "Barred", "Pane", "Met", "Words", "Parting", "Mapping", "Walks", "Parts");
-            String plain = type.replace("[]", "");
-            rule(3, own.contains(plain) || Set.of("int", "long", "boolean").contains(plain), "a variable of " + type);
+            String plain = type.replaceAll("<.*>|\\[\\]", "");
+            rule(3, TYPES.contains(plain) || isOwn(plain), "a variable of " + type);
             var element = (VariableElement) trees.getElement(trees.getPath(unit, t));
             rule(3, element != null, "an unknown variable " + t);
             return super.visitVariable(t, v);
+        }
+
+        private static boolean isOwn(String type) {
+            for (Class<?> c : RowRules.class.getDeclaredClasses()) {
+                if (c.getSimpleName().equals(type)) {
+                    return true;
+                }
+            }
+            return type.equals("RowRules") || type.matches("[A-Z]");
         }
 
         @Override public Void visitNewClass(NewClassTree t, Void v) {
@@ -185,20 +195,11 @@ public final class Language {
             return super.visitNewClass(t, v);
         }
 
-        @Override public Void visitSwitch(SwitchTree t, Void v) {
-            for (CaseTree c : t.getCases()) {
-                rule(6, c.getCaseKind() == CaseTree.CaseKind.STATEMENT, "a case by an arrow");
-            }
-            return super.visitSwitch(t, v);
-        }
-
         @Override public Void visitThrow(ThrowTree t, Void v) { never(6, t); return null; }
         @Override public Void visitTry(TryTree t, Void v) { never(6, t); return null; }
         @Override public Void visitSynchronized(SynchronizedTree t, Void v) { never(6, t); return null; }
         @Override public Void visitAssert(AssertTree t, Void v) { never(6, t); return null; }
         @Override public Void visitLambdaExpression(LambdaExpressionTree t, Void v) { never(2, t); return null; }
         @Override public Void visitMemberReference(MemberReferenceTree t, Void v) { never(2, t); return null; }
-        @Override public Void visitSwitchExpression(SwitchExpressionTree t, Void v) { never(10, t); return null; }
-        @Override public Void visitAnnotation(AnnotationTree t, Void v) { never(4, t); return null; }
     }
 }

@@ -1,23 +1,17 @@
-/** For each promise of the document: ordinary inputs, the edges that it names, and wrong inputs. */
+/** Promise by promise: a test for each sentence, its edges and its refused calls. */
 public final class Promises {
-    private static final int BAD = RowRules.BAD, NO = RowRules.NO, FULL = RowRules.FULL, SPENT = RowRules.SPENT, NONE = RowRules.NONE;
-    private static final int TOP = Integer.MAX_VALUE, LOW = Integer.MIN_VALUE;
-    private static int wrong = 0;
-
-    private static void due(String what, long got, long want) {
-        if (got != want) {
-            wrong++;
-            System.out.println(what + " answered " + got + ", due is " + want);
-        }
-    }
+    private static final int NONE = -1, BAD = -2, NO = -3, FULL = -4, SPENT = -5;
 
     public static void main(String[] args) {
         newObject();
         set();
         way();
         unway();
-        emptyLetterLetterAt();
-        forbidUnforbid();
+        empty();
+        letter();
+        letterAt();
+        forbid();
+        unforbid();
         byWords();
         about();
         live();
@@ -27,1008 +21,1311 @@ public final class Promises {
         rounds();
         growth();
         same();
-        sameWordIsLong();
-        sameIsSpent();
-        partPace();
-        windowTells();
+        part();
+        pace();
+        window();
+        tells();
         maps();
-        mapsIsSpent();
-        weightsWeight();
+        weights();
+        weight();
         count();
         digest();
-        refusedChangesNothing();
-        System.out.println(wrong == 0 ? "all promises hold" : wrong + " answers are not as due");
-        if (wrong != 0) {
-            System.exit(1);
-        }
+        Sentences.end();
     }
 
-    // ---- sets of states and ways that many promises are asked about
-
-    private static void spell(RowRules x, int... letters) {
-        x.empty();
-        for (int l : letters) {
-            x.letter(l);
-        }
+    private static void promise(int number) {
+        Sentences.at("Promise " + number);
     }
 
-    private static int byForbidding(RowRules x, int k, int[]... words) {
-        x.unforbid();
-        for (int[] w : words) {
-            spell(x, w);
-            x.forbid();
-        }
-        x.empty();
-        return x.byWords(k);
+    private static void holds(String words, String theCase, Runnable test) {
+        Sentences.holds(words, theCase, test);
     }
 
-    /** Ways by letter and state, as the bits of where they lead. */
-    private static int graph(RowRules x, int states, int[]... ends) {
-        int set = x.set(Math.max(2, ends.length), states);
-        for (int l = 0; l < ends.length; l++) {
-            for (int from = 0; from < states; from++) {
-                for (int to = 0; to < states; to++) {
-                    if ((ends[l][from] >> to & 1) != 0) {
-                        due("way", x.way(set, from, l, to), 1);
-                    }
-                }
-            }
-        }
-        return set;
+    private static void due(String call, long got, long want) {
+        Sentences.due(call, got, want);
     }
 
-    private static int all(RowRules x, int k) {
-        int set = x.set(k, 1);
-        for (int l = 0; l < k; l++) {
-            x.way(set, 0, l, 0);
-        }
-        return set;
+    private static void refused(Counted x, long want, String call, java.util.function.LongSupplier answer) {
+        Sentences.refused(x, want, call, answer);
     }
 
-    /** All turn on by a LETTER; by LETTER 1 the last is lost: all sets of states but the empty one are met first. */
-    private static int losingRing(RowRules x, int states) {
-        int set = x.set(2, states);
-        for (int s = 0; s < states; s++) {
-            x.way(set, s, 0, (s + 1) % states);
-            if (s < states - 1) {
-                x.way(set, s, 1, s + 1);
-            }
-        }
-        return set;
+    private static int[] outside(int least, int most) {
+        return Sentences.outside(least, most);
     }
 
     // ---- promise 1
 
     private static void newObject() {
-        RowRules x = new RowRules();
-        due("1: SETS", x.count(0), 0);
-        due("1: LETTERS", x.count(1), 0);
-        due("1: FORBIDDEN", x.count(2), 0);
-        due("1: w", x.count(3), 1);
-        due("1: first LETTER", x.letterAt(0), NONE);
-        for (int row = 0; row < 4; row++) {
-            due("1: WINDOW tells", x.tells(row, 0), 0);
-        }
-        long h = 193;
-        for (int v : new int[] {0, 0, 0, 1, 0, 0, 0, 0}) {
-            h = 31 * h + v;
-        }
-        due("1: digest", x.digest(), h);
-        due("constants", NONE * 10000 + BAD * 1000 + NO * 100 + FULL * 10 + SPENT, -12345);
+        promise(1);
+        holds("No SETS", "none is numbered 0", () -> {
+            Counted x = new Counted();
+            due("count(0)", x.count(0), 0);
+            due("about(0, 0)", x.about(0, 0), BAD);
+            due("the first", x.set(2, 1), 0);
+        });
+        holds("no WORDS told", "none to be FORBIDDEN", () -> {
+            Counted x = new Counted();
+            due("count(2)", x.count(2), 0);
+            due("unforbid()", x.unforbid(), 0);
+        });
+        holds("THE WORD is empty", "no LETTER of it", () -> {
+            Counted x = new Counted();
+            due("count(1)", x.count(1), 0);
+            due("letterAt(0)", x.letterAt(0), NONE);
+            due("empty()", x.empty(), 0);
+        });
+        holds("WINDOW of 1", "four rows, all 0", () -> {
+            Counted x = new Counted();
+            due("count(3)", x.count(3), 1);
+            for (int row = 0; row < 4; row++) {
+                due("tells(" + row + ", 1)", x.tells(row, 1), 0);
+            }
+            due("tells(4, 1)", x.tells(4, 1), BAD);
+        });
+        holds("No SETS", "whatever other objects have been called for", () -> {
+            Counted other = new Counted();
+            other.golden();
+            other.spell(1, 2, 3);
+            other.window(3);
+            other.tells(0, 2);
+            Counted x = new Counted();
+            due("digest()", x.digest(), digestOf(0, 0, 0, 1, 0, 0, 0, 0));
+            x.set(4, 16);
+            x.letter(0);
+            x.window(1);
+            due("count(0) of the other", other.count(0), 1);
+            due("count(1) of the other", other.count(1), 3);
+            due("count(3) of the other", other.count(3), 3);
+        });
     }
 
     // ---- promise 2
 
     private static void set() {
-        RowRules x = new RowRules();
-        int[][] odd = {{1, 1}, {5, 1}, {0, 1}, {-1, 1}, {TOP, 1}, {LOW, 1}, {2, 0}, {2, 17}, {2, -1}, {4, TOP}, {4, LOW}};
-        for (int[] o : odd) {
-            due("2: set BAD", x.set(o[0], o[1]), BAD);
-        }
-        due("2: none yet", x.count(0), 0);
-        int[][] fit = {{2, 1}, {2, 16}, {3, 7}, {4, 1}, {4, 16}, {3, 16}};
-        for (int i = 0; i < fit.length; i++) {
-            due("2: set", x.set(fit[i][0], fit[i][1]), i);
-            due("2: LETTERS", x.about(i, 0), fit[i][0]);
-            due("2: STATES", x.about(i, 1), fit[i][1]);
-            due("2: WAYS", x.about(i, 2), 0);
-        }
-        due("2: FULL", x.set(2, 1), FULL);
-        due("2: BAD before FULL", x.set(5, 1), BAD);
-        due("2: BAD before FULL", x.set(2, 17), BAD);
-        due("2: six", x.count(0), 6);
+        promise(2);
+        holds("A SET without WAYS: its number", "0 to 5, with the least and the most LETTERS and STATES", () -> {
+            Counted x = new Counted();
+            int[][] told = {{2, 1}, {2, 16}, {3, 1}, {3, 16}, {4, 1}, {4, 16}};
+            for (int i = 0; i < 6; i++) {
+                due("set", x.set(told[i][0], told[i][1]), i);
+                int[] want = {told[i][0], told[i][1], 0, 0, 0, 0};
+                for (int what = 0; what < 6; what++) {
+                    due("about " + what, x.about(i, what), want[what]);
+                }
+            }
+        });
+        holds("BAD", "less than 2 LETTERS, more than 4", () -> {
+            Counted x = new Counted();
+            for (int odd : outside(2, 4)) {
+                refused(x, BAD, "set(" + odd + ", 1)", () -> x.set(odd, 1));
+                refused(x, BAD, "set(" + odd + ", 16)", () -> x.set(odd, 16));
+            }
+        });
+        holds("BAD", "less than 1 STATE, more than 16", () -> {
+            Counted x = new Counted();
+            for (int odd : outside(1, 16)) {
+                refused(x, BAD, "set(2, " + odd + ")", () -> x.set(2, odd));
+                refused(x, BAD, "set(4, " + odd + ")", () -> x.set(4, odd));
+            }
+        });
+        holds("FULL: 6", "the seventh, made by hand or BY WORDS", () -> {
+            Counted x = new Counted();
+            for (int i = 0; i < 6; i++) {
+                due("one of six", i % 2 == 0 ? x.set(2, 1) : x.byWords(2), i);
+            }
+            refused(x, FULL, "set(2, 1)", () -> x.set(2, 1));
+            refused(x, FULL, "set(4, 16)", () -> x.set(4, 16));
+        });
     }
 
     // ---- promises 3, 4
 
     private static void way() {
-        RowRules x = new RowRules();
-        due("3: no SET", x.way(0, 0, 0, 0), BAD);
-        x.set(3, 4);
-        due("3: way", x.way(0, 0, 2, 3), 1);
-        due("3: again", x.way(0, 0, 2, 3), NO);
-        due("3: another STATE", x.way(0, 0, 2, 2), 1);
-        due("3: another LETTER", x.way(0, 0, 1, 3), 1);
-        due("3: from another", x.way(0, 3, 2, 3), 1);
-        due("3: WAYS", x.about(0, 2), 4);
-        int[][] odd = {{1, 0, 0, 0}, {-1, 0, 0, 0}, {6, 0, 0, 0}, {TOP, 0, 0, 0}, {LOW, 0, 0, 0}, {0, 4, 0, 0}, {0, -1, 0, 0},
-            {0, 0, 3, 0}, {0, 0, -1, 0}, {0, 0, 0, 4}, {0, 0, 0, -1}, {0, TOP, 0, 0}, {0, 0, LOW, 0}, {0, 0, 0, TOP}};
-        for (int[] o : odd) {
-            due("3: way BAD", x.way(o[0], o[1], o[2], o[3]), BAD);
-            due("4: unway BAD", x.unway(o[0], o[1], o[2], o[3]), BAD);
-        }
-        due("3: WAYS still", x.about(0, 2), 4);
-        x.set(4, 16);
-        for (int f = 0; f < 16; f++) {
-            for (int l = 0; l < 4; l++) {
-                for (int t = 0; t < 16; t++) {
-                    due("3: all WAYS", x.way(1, f, l, t), 1);
-                }
-            }
-        }
-        due("3: all WAYS are", x.about(1, 2), 1024);
-        due("3: all WAYS are LIVE", x.about(1, 4), 1024);
+        promise(3);
+        holds("A WAY: 1", "from the first STATE to the last and back, by the first LETTER and the last", () -> {
+            Counted x = new Counted();
+            x.set(4, 16);
+            due("way", x.way(0, 0, 0, 15), 1);
+            due("way", x.way(0, 15, 3, 0), 1);
+            due("way", x.way(0, 15, 3, 15), 1);
+            due("WAYS", x.about(0, 2), 3);
+            due("digest()", x.digest(), digestOfWays(new int[] {0, 0, 15}, new int[] {15, 3, 0}, new int[] {15, 3, 15}));
+        });
+        holds("A WAY: 1", "of one SET, not of another", () -> {
+            Counted x = new Counted();
+            x.set(2, 2);
+            x.set(2, 2);
+            due("way", x.way(1, 0, 1, 1), 1);
+            due("WAYS of 0", x.about(0, 2), 0);
+            due("WAYS of 1", x.about(1, 2), 1);
+            due("the like one of 0", x.way(0, 0, 1, 1), 1);
+        });
+        badWays("way", Counted::way);
+        holds("NO: it is there", "alike, in a SET by hand and in one BY WORDS", () -> {
+            Counted x = new Counted();
+            int hand = x.graph(2, 2, new int[] {0, 1, 1});
+            refused(x, NO, "again", () -> x.way(hand, 0, 1, 1));
+            int words = x.golden();
+            refused(x, NO, "01", () -> x.way(words, 0, 1, 1));
+            due("11 is not there", x.way(words, 1, 1, 1), 1);
+            refused(x, NO, "11 is there then", () -> x.way(words, 1, 1, 1));
+        });
     }
 
     private static void unway() {
-        RowRules x = new RowRules();
-        x.set(2, 2);
-        due("4: none", x.unway(0, 0, 0, 0), NO);
-        x.way(0, 0, 0, 0);
-        x.way(0, 0, 0, 1);
-        x.way(0, 1, 0, 0);
-        due("4: LIVE before", x.about(0, 3), 2);
-        due("4: the other way round", x.unway(0, 1, 0, 1), NO);
-        due("4: goes", x.unway(0, 0, 0, 1), 1);
-        due("4: gone", x.unway(0, 0, 0, 1), NO);
-        due("4: WAYS", x.about(0, 2), 2);
-        due("4: LIVE behind", x.about(0, 3), 1);
-        due("4: comes again", x.way(0, 0, 0, 1), 1);
-        due("4: LIVE again", x.about(0, 3), 2);
+        promise(4);
+        holds("A WAY goes: 1", "that one alone, and may come again", () -> {
+            Counted x = new Counted();
+            x.graph(2, 2, new int[] {0, 0, 0}, new int[] {0, 0, 1}, new int[] {1, 0, 0}, new int[] {0, 1, 1});
+            due("LIVE WAYS", x.about(0, 4), 4);
+            due("unway", x.unway(0, 1, 0, 0), 1);
+            due("WAYS", x.about(0, 2), 3);
+            due("LIVE STATES", x.about(0, 3), 1);
+            due("LIVE WAYS", x.about(0, 4), 1);
+            due("way", x.way(0, 1, 0, 0), 1);
+            due("LIVE WAYS", x.about(0, 4), 4);
+        });
+        holds("A WAY goes: 1", "the last one, of the last STATE and LETTER", () -> {
+            Counted x = new Counted();
+            x.graph(4, 16, new int[] {15, 3, 15});
+            due("unway", x.unway(0, 15, 3, 15), 1);
+            due("digest()", x.digest(), digestOfWays());
+        });
+        badWays("unway", Counted::unway);
+        holds("NO: there is none", "none at all; unlike in one number; gone already", () -> {
+            Counted x = new Counted();
+            x.set(3, 3);
+            refused(x, NO, "none", () -> x.unway(0, 0, 0, 0));
+            x.way(0, 1, 1, 1);
+            refused(x, NO, "from another", () -> x.unway(0, 0, 1, 1));
+            refused(x, NO, "by another", () -> x.unway(0, 1, 0, 1));
+            refused(x, NO, "to another", () -> x.unway(0, 1, 1, 0));
+            due("unway", x.unway(0, 1, 1, 1), 1);
+            refused(x, NO, "gone", () -> x.unway(0, 1, 1, 1));
+        });
+    }
+
+    private interface OfWay {
+        int answer(Counted x, int set, int from, int letter, int to);
+    }
+
+    private static void badWays(String name, OfWay call) {
+        holds("BAD", "no such SET", () -> {
+            Counted x = new Counted();
+            refused(x, BAD, name + ", no SETS", () -> call.answer(x, 0, 0, 0, 0));
+            x.graph(3, 5, new int[] {0, 0, 0});
+            x.graph(2, 16, new int[] {0, 0, 0});
+            for (int odd : outside(0, 1)) {
+                refused(x, BAD, name + " of SET " + odd, () -> call.answer(x, odd, 0, 0, 0));
+            }
+        });
+        holds("BAD", "no such STATE to go from", () -> {
+            Counted x = new Counted();
+            x.graph(3, 5, new int[] {0, 0, 0});
+            x.graph(2, 16, new int[] {0, 0, 0});
+            for (int odd : outside(0, 4)) {
+                refused(x, BAD, name + " from " + odd + " of 5", () -> call.answer(x, 0, odd, 0, 0));
+            }
+            for (int odd : outside(0, 15)) {
+                refused(x, BAD, name + " from " + odd + " of 16", () -> call.answer(x, 1, odd, 0, 0));
+            }
+        });
+        holds("BAD", "no such LETTER of the SET", () -> {
+            Counted x = new Counted();
+            x.graph(3, 5, new int[] {0, 0, 0});
+            x.graph(2, 16, new int[] {0, 0, 0});
+            for (int odd : outside(0, 2)) {
+                refused(x, BAD, name + " by " + odd + " of 3", () -> call.answer(x, 0, 0, odd, 0));
+            }
+            for (int odd : outside(0, 1)) {
+                refused(x, BAD, name + " by " + odd + " of 2", () -> call.answer(x, 1, 0, odd, 0));
+            }
+        });
+        holds("BAD", "no such STATE to go to", () -> {
+            Counted x = new Counted();
+            x.graph(3, 5, new int[] {0, 0, 0});
+            x.graph(2, 16, new int[] {0, 0, 0});
+            for (int odd : outside(0, 4)) {
+                refused(x, BAD, name + " to " + odd + " of 5", () -> call.answer(x, 0, 0, 0, odd));
+            }
+            for (int odd : outside(0, 15)) {
+                refused(x, BAD, name + " to " + odd + " of 16", () -> call.answer(x, 1, 0, 0, odd));
+            }
+        });
     }
 
     // ---- promises 5, 6, 7
 
-    private static void emptyLetterLetterAt() {
-        RowRules x = new RowRules();
-        due("5: empty", x.empty(), 0);
-        for (int l : new int[] {-1, 4, TOP, LOW}) {
-            due("6: BAD", x.letter(l), BAD);
-        }
-        for (int i = 0; i < 30; i++) {
-            due("6: letter", x.letter(i * 7 / 3 & 3), i + 1);
-        }
-        due("6: FULL", x.letter(0), FULL);
-        due("6: BAD before FULL", x.letter(4), BAD);
-        for (int i = 0; i < 30; i++) {
-            due("7: letterAt", x.letterAt(i), i * 7 / 3 & 3);
-        }
-        for (int i : new int[] {30, 31, TOP, -1, LOW}) {
-            due("7: NONE", x.letterAt(i), NONE);
-        }
-        due("5: thirty", x.empty(), 30);
-        due("5: then none", x.empty(), 0);
-        due("7: none behind", x.letterAt(0), NONE);
-        due("6: anew", x.letter(3), 1);
-        due("7: anew", x.letterAt(0), 3);
-        due("7: but one", x.letterAt(1), NONE);
+    private static void empty() {
+        promise(5);
+        holds("THE WORD is empty: how long it was", "0, 1 and 30 LETTERS", () -> {
+            Counted x = new Counted();
+            due("empty()", x.empty(), 0);
+            x.letter(3);
+            due("empty()", x.empty(), 1);
+            due("empty()", x.empty(), 0);
+            for (int i = 0; i < 30; i++) {
+                x.letter(i & 3);
+            }
+            due("empty()", x.empty(), 30);
+            due("count(1)", x.count(1), 0);
+            due("letterAt(0)", x.letterAt(0), NONE);
+            due("letter(2)", x.letter(2), 1);
+        });
+        holds("THE WORD is empty: how long it was", "WORDS to be FORBIDDEN stay", () -> {
+            Counted x = new Counted();
+            x.spell(1, 1);
+            x.forbid();
+            due("empty()", x.empty(), 2);
+            due("count(2)", x.count(2), 1);
+            due("WAYS", x.about(x.byWords(2), 2), 3);
+        });
+    }
+
+    private static void letter() {
+        promise(6);
+        holds("A LETTER (0 .. 3) comes behind THE WORD: how long it is", "1 to 30, each LETTER, though no SET has it", () -> {
+            Counted x = new Counted();
+            for (int i = 0; i < 30; i++) {
+                due("letter", x.letter((i + i / 4) % 4), i + 1);
+            }
+            Sentences.due("THE WORD", x.word(), "012312302301301201231230230130");
+        });
+        holds("BAD", "below 0, above 3", () -> {
+            Counted x = new Counted();
+            x.spell(2);
+            for (int odd : outside(0, 3)) {
+                refused(x, BAD, "letter(" + odd + ")", () -> x.letter(odd));
+            }
+        });
+        holds("FULL: 30", "the 31st", () -> {
+            Counted x = new Counted();
+            for (int i = 0; i < 30; i++) {
+                x.letter(1);
+            }
+            for (int l = 0; l < 4; l++) {
+                int more = l;
+                refused(x, FULL, "letter(" + l + ")", () -> x.letter(more));
+            }
+            due("count(1)", x.count(1), 30);
+            x.empty();
+            due("room again", x.letter(0), 1);
+        });
+        holds("FULL: 30", "behind a WORD of 30 that PARTS", () -> {
+            Counted x = new Counted();
+            due("same", x.same(x.rings(28), x.all(2)), 0);
+            refused(x, FULL, "letter(0)", () -> x.letter(0));
+            due("empty()", x.empty(), 30);
+        });
+    }
+
+    private static void letterAt() {
+        promise(7);
+        holds("LETTER i of THE WORD", "the first to the 30th", () -> {
+            Counted x = new Counted();
+            for (int i = 0; i < 30; i++) {
+                x.letter(i * 7 / 3 & 3);
+            }
+            for (int i = 0; i < 30; i++) {
+                due("letterAt(" + i + ")", x.letterAt(i), i * 7 / 3 & 3);
+            }
+        });
+        holds("NONE: not so long", "just behind the last of 0, 1, 29 and 30", () -> {
+            Counted x = new Counted();
+            due("of 0", x.letterAt(0), NONE);
+            for (int length = 1; length <= 30; length++) {
+                x.letter(3);
+                due("the last of " + length, x.letterAt(length - 1), 3);
+                due("behind " + length, x.letterAt(length), NONE);
+            }
+            x.empty();
+            due("of 0 again", x.letterAt(0), NONE);
+        });
+        holds("NONE: not so long", "numbers that no WORD has a LETTER for", () -> {
+            Counted x = new Counted();
+            x.spell(1, 2);
+            for (int odd : outside(0, 29)) {
+                refused(x, NONE, "letterAt(" + odd + ")", () -> x.letterAt(odd));
+            }
+        });
     }
 
     // ---- promises 8, 9
 
-    private static void forbidUnforbid() {
-        RowRules x = new RowRules();
-        due("9: none", x.unforbid(), 0);
-        due("8: empty", x.forbid(), NO);
-        spell(x, 0, 1, 2, 3, 0, 1);
-        due("8: six LETTERS", x.forbid(), NO);
-        spell(x, 0, 1, 2, 3, 0);
-        due("8: five LETTERS", x.forbid(), 1);
-        due("8: THE WORD stays", x.count(1), 5);
-        due("8: alike", x.forbid(), 2);
-        spell(x, 3);
-        for (int i = 3; i <= 8; i++) {
-            due("8: forbid", x.forbid(), i);
-        }
-        due("8: FULL", x.forbid(), FULL);
-        x.empty();
-        due("8: NO before FULL", x.forbid(), NO);
-        due("8: eight", x.count(2), 8);
-        due("9: eight", x.unforbid(), 8);
-        due("9: none any more", x.unforbid(), 0);
-        due("9: count", x.count(2), 0);
-        due("9: none FORBIDDEN", x.byWords(2), 0);
-        due("9: all WAYS", x.about(0, 2), 4);
-        x.letter(1);
-        due("8: anew", x.forbid(), 1);
-        x.empty();
-        x.letter(0);
-        due("8: kept though THE WORD goes on", x.byWords(2), 1);
-        due("8: the first is FORBIDDEN", x.about(1, 4), 1);
-        due("8: 0 MAY STAND", x.may(1), 1);
+    private static void forbid() {
+        promise(8);
+        holds("THE WORD is one of those to be FORBIDDEN (1 .. 5 LETTERS): how many", "1 to 8, of 1 and of 5 LETTERS", () -> {
+            Counted x = new Counted();
+            for (int i = 1; i <= 8; i++) {
+                x.spell(i % 2 == 0 ? new int[] {1} : new int[] {0, 1, 2, 3, i & 3});
+                due("forbid()", x.forbid(), i);
+            }
+            due("count(2)", x.count(2), 8);
+            due("THE WORD stays", x.count(1), 1);
+        });
+        holds("THE WORD is one of those to be FORBIDDEN (1 .. 5 LETTERS): how many", "alike ones count each", () -> {
+            Counted x = new Counted();
+            x.spell(1, 1);
+            due("forbid()", x.forbid(), 1);
+            due("forbid()", x.forbid(), 2);
+            due("WAYS", x.about(x.byWords(2), 2), 3);
+        });
+        holds("THE WORD is one of those to be FORBIDDEN (1 .. 5 LETTERS): how many", "as it is then, whatever it becomes", () -> {
+            Counted x = new Counted();
+            x.spell(1);
+            x.forbid();
+            x.empty();
+            x.letter(0);
+            int set = x.byWords(2);
+            due("0 MAY STAND", x.may(set), 1);
+            x.spell(1);
+            due("1 may not", x.may(set), 0);
+        });
+        holds("NO: its length", "0, 6 and 30 LETTERS", () -> {
+            Counted x = new Counted();
+            refused(x, NO, "0", () -> x.forbid());
+            x.spell(0, 1, 0, 1, 0);
+            due("5", x.forbid(), 1);
+            x.letter(1);
+            refused(x, NO, "6", () -> x.forbid());
+            while (x.count(1) < 30) {
+                x.letter(1);
+            }
+            refused(x, NO, "30", () -> x.forbid());
+        });
+        holds("FULL: 8", "the ninth", () -> {
+            Counted x = new Counted();
+            x.spell(3, 3, 3, 3, 3);
+            for (int i = 1; i <= 8; i++) {
+                due("forbid()", x.forbid(), i);
+            }
+            refused(x, FULL, "five LETTERS", () -> x.forbid());
+            x.spell(0);
+            refused(x, FULL, "one LETTER", () -> x.forbid());
+            x.unforbid();
+            due("room again", x.forbid(), 1);
+        });
+    }
+
+    private static void unforbid() {
+        promise(9);
+        holds("None is to be FORBIDDEN any more: how many were", "0, 1 and 8", () -> {
+            Counted x = new Counted();
+            due("unforbid()", x.unforbid(), 0);
+            x.spell(1, 0);
+            x.forbid();
+            due("unforbid()", x.unforbid(), 1);
+            due("unforbid()", x.unforbid(), 0);
+            for (int i = 0; i < 8; i++) {
+                x.forbid();
+            }
+            due("unforbid()", x.unforbid(), 8);
+            due("count(2)", x.count(2), 0);
+            due("all WAYS", x.about(x.byWords(2), 2), 4);
+            due("THE WORD stays", x.count(1), 2);
+        });
+        holds("None is to be FORBIDDEN any more: how many were", "longer ones leave nothing behind in shorter ones", () -> {
+            Counted x = new Counted();
+            x.spell(1, 1, 0, 1, 1);
+            x.forbid();
+            x.unforbid();
+            x.spell(0, 0);
+            x.forbid();
+            int set = x.byWords(2);
+            due("STATES", x.about(set, 1), 2);
+            due("WAYS", x.about(set, 2), 3);
+            due("00 is gone", x.way(set, 0, 0, 0), 1);
+        });
+        holds("None is to be FORBIDDEN any more: how many were", "SETS that were made BY WORDS stay", () -> {
+            Counted x = new Counted();
+            int golden = x.golden();
+            due("unforbid()", x.unforbid(), 1);
+            due("WAYS", x.about(golden, 2), 3);
+        });
     }
 
     // ---- promise 10
 
     private static void byWords() {
-        RowRules x = new RowRules();
-        for (int k : new int[] {1, 5, 0, -1, TOP, LOW}) {
-            due("10: BAD", x.byWords(k), BAD);
-        }
-        due("10: none FORBIDDEN", x.byWords(4), 0);
-        due("10: STATES of one LETTER", x.about(0, 1), 4);
-        due("10: all WAYS", x.about(0, 4), 16);
-        due("10: golden", byForbidding(x, 2, new int[] {1, 1}), 1);
-        due("10: 0 to 0", x.unway(1, 0, 0, 0), 1);
-        due("10: 0 to 1", x.unway(1, 0, 1, 1), 1);
-        due("10: 1 to 0", x.unway(1, 1, 0, 0), 1);
-        due("10: no more", x.about(1, 2), 0);
-        due("10: five LETTERS of two", byForbidding(x, 2, new int[] {1, 0, 0, 1, 1}), 2);
-        due("10: sixteen STATES", x.about(2, 1), 16);
-        due("10: one WAY less", x.about(2, 2), 31);
-        due("10: the row 1001 has no WAY by 1", x.way(2, 9, 1, 3), 1);
-        due("10: the first LETTER is highest", x.way(2, 9, 0, 2), NO);
-        due("10: three of four LETTERS", byForbidding(x, 4, new int[] {3, 2, 1}), 3);
-        due("10: sixteen STATES", x.about(3, 1), 16);
-        due("10: row 32 has no WAY by 1 to 21", x.unway(3, 14, 1, 9), NO);
-        due("10: row 32 has one by 0 to 20", x.unway(3, 14, 0, 8), 1);
-        due("10: above 16", byForbidding(x, 3, new int[] {0, 1, 0, 1}), NO);
-        due("10: above 16", byForbidding(x, 4, new int[] {0, 1, 0, 1}), NO);
-        due("10: fits two", x.byWords(2), 4);
-        due("10: eight STATES", x.about(4, 1), 8);
-        due("10: a LETTER that it has not", byForbidding(x, 2, new int[] {0}, new int[] {0, 2}), BAD);
-        due("10: BAD before NO", byForbidding(x, 3, new int[] {0, 1, 0, 1}, new int[] {3}), BAD);
-        due("10: one of one LETTER", byForbidding(x, 3, new int[] {1}), 5);
-        due("10: three STATES", x.about(5, 1), 3);
-        due("10: without 1", x.about(5, 2), 4);
-        due("10: FULL", x.byWords(3), FULL);
-        due("10: NO before FULL", byForbidding(x, 3, new int[] {0, 1, 0, 1}), NO);
-        due("10: BAD before FULL", byForbidding(x, 2, new int[] {2}), BAD);
-        shortAmongLong();
+        promise(10);
+        holds("A SET BY WORDS: its number", "0 to 5, for 2, 3 and 4 LETTERS", () -> {
+            Counted x = new Counted();
+            for (int i = 0; i < 6; i++) {
+                int k = 2 + i % 3;
+                due("byWords(" + k + ")", x.byWords(k), i);
+                due("LETTERS", x.about(i, 0), k);
+                due("STATES", x.about(i, 1), k);
+                due("WAYS", x.about(i, 2), k * k);
+            }
+        });
+        holds("A SET BY WORDS: its number", "it is as any other; what is to be FORBIDDEN stays, and THE WORD", () -> {
+            Counted x = new Counted();
+            x.spell(1, 1);
+            x.forbid();
+            due("byWords(2)", x.byWords(2), 0);
+            due("count(1)", x.count(1), 2);
+            due("count(2)", x.count(2), 1);
+            due("byWords(3)", x.byWords(3), 1);
+            due("golden", x.howMany(0, 10), 144);
+            due("a WAY more", x.way(0, 1, 1, 1), 1);
+            due("all", x.howMany(0, 10), 1024);
+            due("not in the other", x.may(1), 0);
+        });
+        holds("BAD: also a FORBIDDEN WORD with a LETTER that it has not", "less than 2 LETTERS, more than 4", () -> {
+            Counted x = new Counted();
+            for (int odd : outside(2, 4)) {
+                refused(x, BAD, "byWords(" + odd + ")", () -> x.byWords(odd));
+            }
+        });
+        holds("BAD: also a FORBIDDEN WORD with a LETTER that it has not", "k in a SET of k, first, amid and last in a WORD, in any of eight", () -> {
+            for (int k = 2; k < 4; k++) {
+                int letters = k;
+                for (int at = 0; at < 3; at++) {
+                    Counted x = new Counted();
+                    int[] word = new int[3];
+                    word[at] = k;
+                    x.forbidJust(new int[1], word, new int[2]);
+                    refused(x, BAD, k + " at " + at, () -> x.byWords(letters));
+                    due("one LETTER more has it", x.byWords(k + 1), 0);
+                }
+                Counted x = new Counted();
+                x.forbidJust(new int[1], new int[1], new int[1], new int[1], new int[1], new int[1], new int[1], new int[] {k});
+                refused(x, BAD, k + " in the eighth", () -> x.byWords(letters));
+                x.forbidJust(new int[1], new int[1], new int[] {0, k - 1});
+                due("k - 1 is not too large", x.byWords(k), 0);
+            }
+        });
+        holds("NO: above 16 STATES", "4 and 5 LETTERS of three and of four", () -> {
+            for (int length = 4; length <= 5; length++) {
+                Counted x = new Counted();
+                x.forbidJust(new int[length], new int[1]);
+                refused(x, NO, "of three", () -> x.byWords(3));
+                refused(x, NO, "of four", () -> x.byWords(4));
+                due("of two", x.byWords(2), 0);
+                due("STATES", x.about(0, 1), 1 << length - 1);
+            }
+        });
+        holds("NO: above 16 STATES", "just 16 are not", () -> {
+            Counted x = new Counted();
+            x.forbidJust(new int[5]);
+            due("2 to the 4th", x.byWords(2), 0);
+            x.forbidJust(new int[3]);
+            due("4 to the 2nd", x.byWords(4), 1);
+            due("STATES", x.about(0, 1) + x.about(1, 1), 32);
+        });
+        holds("FULL", "the seventh SET", () -> {
+            Counted x = new Counted();
+            x.spell(1, 1);
+            x.forbid();
+            for (int i = 0; i < 6; i++) {
+                due("byWords(2)", x.byWords(2), i);
+            }
+            refused(x, FULL, "byWords(2)", () -> x.byWords(2));
+            refused(x, FULL, "byWords(4)", () -> x.byWords(4));
+        });
     }
 
-    /** A short FORBIDDEN WORD bars ways wherever it stands in the m LETTERS. */
-    private static void shortAmongLong() {
-        RowRules x = new RowRules();
-        byForbidding(x, 2, new int[] {1, 1}, new int[] {0, 0, 0, 0});
-        due("10: m is 4", x.about(0, 1), 8);
-        due("10: rows of 4 LETTERS without both", x.about(0, 2), 7);
-        due("10: 010 by 1", x.unway(0, 2, 1, 5), 1);
-        due("10: 110 by 0 has 11 first", x.unway(0, 6, 0, 4), NO);
-        due("10: 011 by 0 has 11 amid", x.unway(0, 3, 0, 6), NO);
-        due("10: 101 by 1 has 11 last", x.unway(0, 5, 1, 3), NO);
-        due("10: 000 by 0", x.unway(0, 0, 0, 0), NO);
-        due("10: 000 by 1", x.unway(0, 0, 1, 1), 1);
-    }
-
-    // ---- promises 11, 12
+    // ---- promises 11, 12, 13
 
     private static void about() {
-        RowRules x = new RowRules();
-        due("11: no SET", x.about(0, 0), BAD);
-        x.set(3, 5);
-        // 0 leads to 1, 1 and 2 to one another, 2 to 3, 4 to itself
-        x.way(0, 0, 0, 1);
-        x.way(0, 1, 1, 2);
-        x.way(0, 2, 0, 1);
-        x.way(0, 2, 0, 3);
-        x.way(0, 4, 2, 4);
-        int[] want = {3, 5, 5, 3, 3, 2};
-        for (int what = 0; what <= 5; what++) {
-            due("11: about " + what, x.about(0, what), want[what]);
-        }
-        for (int odd : new int[] {-1, 6, TOP, LOW}) {
-            due("11: BAD what", x.about(0, odd), BAD);
-            due("11: BAD SET", x.about(odd, 0), BAD);
-        }
-        x.way(0, 1, 2, 4);
-        due("11: from PART to PART", x.about(0, 4), 4);
-        due("11: two PARTS", x.about(0, 5), 2);
-        x.set(2, 3);
-        due("11: nothing LIVE", x.about(1, 5), 0);
-        x.way(1, 0, 0, 0);
-        x.way(1, 0, 0, 1);
-        x.way(1, 1, 0, 2);
-        x.way(1, 2, 0, 2);
-        due("11: alone amid", x.about(1, 5), 3);
+        promise(11);
+        holds("Of a SET: 0 LETTERS, 1 STATES, 2 WAYS, 3 LIVE STATES, 4 LIVE WAYS, 5 PARTS", "each unlike the others", () -> {
+            Counted x = new Counted();
+            // 0 leads to 1, 1 and 2 to one another, 2 to 3, 4 to itself by two LETTERS, 5 to 6 and 7
+            int set = x.graph(4, 10, new int[][] {{0, 0, 1}, {1, 1, 2}, {2, 0, 1}, {2, 0, 3}, {4, 2, 4}, {4, 3, 4}, {5, 0, 6}, {5, 0, 7}, {5, 1, 7}});
+            int[] want = {4, 10, 9, 3, 4, 2};
+            for (int what = 0; what < 6; what++) {
+                due("about " + what, x.about(set, what), want[what]);
+            }
+        });
+        holds("Of a SET: 0 LETTERS, 1 STATES, 2 WAYS, 3 LIVE STATES, 4 LIVE WAYS, 5 PARTS", "nothing; all that a SET BY WORDS may have", () -> {
+            Counted x = new Counted();
+            x.set(2, 1);
+            x.spell(3, 3, 3);
+            x.forbid();
+            x.byWords(4);
+            int[][] want = {{2, 1, 0, 0, 0, 0}, {4, 16, 63, 16, 63, 1}};
+            for (int what = 0; what < 6; what++) {
+                due("about(0, " + what + ")", x.about(0, what), want[0][what]);
+                due("about(1, " + what + ")", x.about(1, what), want[1][what]);
+            }
+        });
+        holds("BAD", "no such SET", () -> {
+            Counted x = new Counted();
+            refused(x, BAD, "about(0, 0), no SETS", () -> x.about(0, 0));
+            x.set(2, 1);
+            x.set(2, 1);
+            for (int odd : outside(0, 1)) {
+                for (int what = 0; what < 6; what++) {
+                    due("about(" + odd + ", " + what + ")", x.about(odd, what), BAD);
+                }
+            }
+        });
+        holds("BAD", "nothing to tell: below 0, above 5", () -> {
+            Counted x = new Counted();
+            x.golden();
+            for (int odd : outside(0, 5)) {
+                refused(x, BAD, "about(0, " + odd + ")", () -> x.about(0, odd));
+            }
+        });
     }
 
     private static void live() {
-        RowRules x = new RowRules();
-        due("12: no SET", x.live(0, 0), BAD);
-        x.set(2, 6);
-        for (int s = 0; s < 5; s++) {
-            x.way(0, s, s & 1, s + 1);
-        }
-        for (int s = 0; s < 6; s++) {
-            due("12: a chain dies", x.live(0, s), 0);
-        }
-        x.way(0, 3, 0, 2);
-        int[] want = {0, 0, 1, 1, 0, 0};
-        for (int s = 0; s < 6; s++) {
-            due("12: what only leads there, or is led to, goes", x.live(0, s), want[s]);
-        }
-        x.way(0, 5, 0, 5);
-        due("12: between two", x.live(0, 4), 1);
-        for (int odd : new int[] {-1, 6, TOP, LOW}) {
-            due("12: BAD STATE", x.live(0, odd), BAD);
-            due("12: BAD SET", x.live(odd, 0), BAD);
-        }
+        promise(12);
+        holds("Whether a STATE is LIVE: 1, 0", "the first and the last of sixteen", () -> {
+            Counted x = new Counted();
+            x.graph(2, 16, new int[] {0, 0, 15}, new int[] {15, 1, 0}, new int[] {15, 1, 14}, new int[] {1, 0, 0});
+            for (int s = 0; s < 16; s++) {
+                due("live(0, " + s + ")", x.live(0, s), s == 0 || s == 15 ? 1 : 0);
+            }
+            x.unway(0, 15, 1, 0);
+            due("no more", x.live(0, 0) + x.live(0, 15), 0);
+        });
+        badSetsAndStates("live", Counted::live);
     }
 
-    // ---- promise 13
+    private interface OfState {
+        int answer(Counted x, int set, int state);
+    }
+
+    /** SETS 0 and 1 have five STATES and sixteen, all LIVE. */
+    private static void badSetsAndStates(String name, OfState call) {
+        holds("BAD", "no such SET", () -> {
+            Counted x = new Counted();
+            refused(x, BAD, name + ", no SETS", () -> call.answer(x, 0, 0));
+            liveRing(x, 5);
+            liveRing(x, 16);
+            for (int odd : outside(0, 1)) {
+                refused(x, BAD, name + " of SET " + odd, () -> call.answer(x, odd, 0));
+            }
+        });
+        holds("BAD", "no such STATE, of few and of sixteen", () -> {
+            Counted x = new Counted();
+            liveRing(x, 5);
+            liveRing(x, 16);
+            for (int odd : outside(0, 4)) {
+                refused(x, BAD, name + " of STATE " + odd + " of 5", () -> call.answer(x, 0, odd));
+            }
+            for (int odd : outside(0, 15)) {
+                refused(x, BAD, name + " of STATE " + odd + " of 16", () -> call.answer(x, 1, odd));
+            }
+            refused(x, BAD, name + " of STATE 15 of 5", () -> call.answer(x, 0, 15));
+        });
+        holds("BAD", "no such STATE of a SET where nothing is LIVE", () -> {
+            Counted x = new Counted();
+            x.set(2, 3);
+            refused(x, BAD, name + " of STATE 3", () -> call.answer(x, 0, 3));
+            refused(x, BAD, name + " of STATE -1", () -> call.answer(x, 0, -1));
+        });
+    }
+
+    private static int liveRing(Counted x, int states) {
+        int set = x.set(2, states);
+        for (int s = 0; s < states; s++) {
+            x.way(set, s, 0, (s + 1) % states);
+        }
+        return set;
+    }
+
+    private static void badSets(String name, java.util.function.ToLongBiFunction<Counted, Integer> call) {
+        holds("BAD", "no such SET", () -> {
+            Counted x = new Counted();
+            refused(x, BAD, name + ", no SETS", () -> call.applyAsLong(x, 0));
+            liveRing(x, 5);
+            liveRing(x, 16);
+            for (int odd : outside(0, 1)) {
+                refused(x, BAD, name + " of SET " + odd, () -> call.applyAsLong(x, odd));
+            }
+            while (x.count(0) < 6) {
+                x.all(2);
+            }
+            refused(x, BAD, name + " of SET 6 of 6", () -> call.applyAsLong(x, 6));
+        });
+    }
 
     private static void may() {
-        RowRules x = new RowRules();
-        due("13: no SET", x.may(0), BAD);
-        x.set(2, 4);
-        due("13: nothing LIVE, no LETTERS", x.may(0), 0);
-        x.way(0, 0, 0, 1);
-        x.way(0, 1, 1, 0);
-        x.way(0, 2, 1, 0);
-        x.way(0, 2, 1, 2);
-        x.way(0, 1, 1, 3);
-        due("13: no LETTERS", x.may(0), 1);
-        spell(x, 1, 1, 1, 0, 1, 0, 1);
-        due("13: stands", x.may(0), 1);
-        spell(x, 0, 0);
-        due("13: does not", x.may(0), 0);
-        spell(x, 0, 1, 1);
-        due("13: only by what is not LIVE", x.may(0), 0);
-        spell(x, 2);
-        due("13: a LETTER that it has not", x.may(0), 0);
-        spell(x, 1, 3);
-        due("13: a LETTER that it has not", x.may(0), 0);
-        for (int i = 0; i < 30; i++) {
+        promise(13);
+        holds("Whether THE WORD MAY STAND: 1, 0 (also with a LETTER that the SET has not)", "none, one and 30 LETTERS", () -> {
+            Counted x = new Counted();
+            int golden = x.golden();
+            due("none", x.may(golden), 1);
             x.letter(1);
-        }
-        due("13: BAD", x.may(-1), BAD);
-        due("13: BAD", x.may(1), BAD);
-        due("13: BAD", x.may(TOP), BAD);
+            due("one", x.may(golden), 1);
+            for (int i = 1; i < 30; i++) {
+                x.letter(1 - i % 2);
+            }
+            due("thirty", x.may(golden), 1);
+            x.empty();
+            for (int i = 0; i < 30; i++) {
+                x.letter(i < 28 ? 0 : 1);
+            }
+            due("thirty, the last two 1", x.may(golden), 0);
+        });
+        holds("Whether THE WORD MAY STAND: 1, 0 (also with a LETTER that the SET has not)", "2 and 3 in a SET of 2, 3 in one of 3, none in one of 4", () -> {
+            for (int l = 0; l < 4; l++) {
+                for (int[] word : new int[][] {{l}, {l, 0}, {0, l}, {0, l, 0}}) {
+                    Counted x = new Counted();
+                    x.spell(word);
+                    for (int k = 2; k <= 4; k++) {
+                        due(l + " of " + k, x.may(x.all(k)), l < k ? 1 : 0);
+                    }
+                }
+            }
+        });
+        holds("Whether THE WORD MAY STAND: 1, 0 (also with a LETTER that the SET has not)", "nothing LIVE", () -> {
+            Counted x = new Counted();
+            x.graph(2, 2, new int[] {0, 0, 1});
+            due("the empty WORD", x.may(0), 0);
+            x.letter(0);
+            due("one LETTER", x.may(0), 0);
+            x.letter(3);
+            due("with one that it has not", x.may(0), 0);
+        });
+        badSets("may", (x, set) -> x.may(set));
     }
 
     // ---- promises 14, 15, 16, 17
 
-    private static void howMany() {
-        RowRules x = new RowRules();
-        due("14: no SET", x.howMany(0, 0), BAD);
-        all(x, 4);
-        due("14: all of 24", x.howMany(0, 24), 1L << 48);
-        due("14: all of 0", x.howMany(0, 0), 1);
-        x.set(4, 16);
-        due("14: nothing LIVE", x.howMany(1, 0), 0);
-        due("14: nothing LIVE", x.howMany(1, 24), 0);
-        byForbidding(x, 2, new int[] {1, 1});
-        long a = 1, b = 2;
-        for (int n = 0; n <= 24; n++) {
-            due("14: golden " + n, x.howMany(2, n), a);
-            long c = a + b;
-            a = b;
-            b = c;
-        }
-        // two WAYS with one LETTER make but one WORD
-        x.set(2, 2);
-        x.way(3, 0, 0, 0);
-        x.way(3, 0, 0, 1);
-        x.way(3, 1, 0, 0);
-        x.way(3, 1, 0, 1);
-        due("14: WORDS, not rows of WAYS", x.howMany(3, 10), 1);
-        int ring = losingRing(x, 16);
-        due("14: all sets of STATES", x.howMany(ring, 15), 1 << 15);
-        due("14: but the one that loses all", x.howMany(ring, 16), (1 << 16) - 1);
-        // bit by bit sixteen LETTERS in a row may not all be 1
-        due("14: no run of sixteen", x.howMany(ring, 24), withoutRun(16, 24));
-        for (int odd : new int[] {-1, 25, TOP, LOW}) {
-            due("14: BAD n", x.howMany(0, odd), BAD);
-        }
-        for (int odd : new int[] {-1, 5, TOP, LOW}) {
-            due("14: BAD SET", x.howMany(odd, 0), BAD);
-        }
+    private static void badNumbers(String name, int least, int most, java.util.function.ToLongBiFunction<Counted, Integer> call) {
+        holds("BAD", "less than " + least + ", more than " + most, () -> {
+            Counted x = new Counted();
+            x.golden();
+            for (int odd : outside(least, most)) {
+                refused(x, BAD, name + " with " + odd, () -> call.applyAsLong(x, odd));
+            }
+            due("the least is told", call.applyAsLong(x, least) >= 0 ? 1 : 0, 1);
+            due("the most is told", call.applyAsLong(x, most) >= 0 ? 1 : 0, 1);
+        });
     }
 
-    /**
-     * WORDS of n LETTERS (up to 31) that leave one of r STATES in the losing ring: STATE s is at the last place
-     * before LETTERS r - 1 - s, 2 r - 1 - s, .. so it is left if none of these is 1.
-     */
-    private static long withoutRun(int r, int n) {
-        long sum = 0;
-        for (int word = 0; word < 1 << n; word++) {
-            int lost = 0;
-            for (int i = 0; i < n; i++) {
-                lost |= (word >> i & 1) << i % r;
-            }
-            if (lost != (1 << r) - 1) {
-                sum++;
-            }
-        }
-        return sum;
+    private static void howMany() {
+        promise(14);
+        holds("HOW MANY", "0, 1 and 24 LETTERS; nothing LIVE", () -> {
+            Counted x = new Counted();
+            int golden = x.golden();
+            due("0", x.howMany(golden, 0), 1);
+            due("1", x.howMany(golden, 1), 2);
+            due("24", x.howMany(golden, 24), 121393);
+            due("of four", x.howMany(x.all(4), 24), 281474976710656L);
+            int none = x.set(4, 16);
+            due("nothing LIVE, 0", x.howMany(none, 0), 0);
+            due("nothing LIVE, 24", x.howMany(none, 24), 0);
+        });
+        badSets("howMany", (x, set) -> x.howMany(set, 3));
+        badNumbers("howMany", 0, 24, (x, n) -> x.howMany(0, n));
     }
 
     private static void loops() {
-        RowRules x = new RowRules();
-        due("15: no SET", x.loops(0, 1), BAD);
-        x.set(4, 16);
-        due("15: none", x.loops(0, 10), 0);
-        for (int f = 0; f < 16; f++) {
-            for (int l = 0; l < 4; l++) {
-                for (int t = 0; t < 16; t++) {
-                    x.way(0, f, l, t);
-                }
-            }
-        }
-        long want = 1;
-        for (int n = 1; n <= 10; n++) {
-            want *= 64;
-            due("15: all " + n, x.loops(0, n), want);
-        }
-        byForbidding(x, 2, new int[] {1, 1});
-        int[] lucas = {1, 3, 4, 7, 11, 18, 29, 47, 76, 123};
-        for (int n = 1; n <= 10; n++) {
-            due("15: golden " + n, x.loops(1, n), lucas[n - 1]);
-        }
-        // a ring of three: each row told by where it begins
-        x.set(2, 4);
-        x.way(2, 0, 0, 1);
-        x.way(2, 1, 0, 2);
-        x.way(2, 2, 0, 0);
-        x.way(2, 2, 0, 3);
-        due("15: ring by 3", x.loops(2, 3), 3);
-        due("15: ring by 4", x.loops(2, 4), 0);
-        x.way(2, 2, 1, 0);
-        due("15: two WAYS back", x.loops(2, 3), 6);
-        due("15: two WAYS back, twice", x.loops(2, 6), 12);
-        for (int odd : new int[] {0, -1, 11, TOP, LOW}) {
-            due("15: BAD n", x.loops(0, odd), BAD);
-        }
-        due("15: BAD SET", x.loops(3, 1), BAD);
-        due("15: BAD SET", x.loops(-1, 1), BAD);
+        promise(15);
+        holds("LOOPS", "1 and 10 WAYS; nothing LIVE; none so long", () -> {
+            Counted x = new Counted();
+            int golden = x.golden();
+            due("1", x.loops(golden, 1), 1);
+            due("10", x.loops(golden, 10), 123);
+            due("of four", x.loops(x.all(4), 10), 1 << 20);
+            due("nothing LIVE", x.loops(x.set(2, 16), 10), 0);
+            int ring = liveRing(x, 10);
+            due("9 of a ring of 10", x.loops(ring, 9), 0);
+            due("10 of a ring of 10", x.loops(ring, 10), 10);
+        });
+        badSets("loops", (x, set) -> x.loops(set, 3));
+        badNumbers("loops", 1, 10, (x, n) -> x.loops(0, n));
     }
 
     private static void rounds() {
-        RowRules x = new RowRules();
-        due("16: no SET", x.rounds(0, 1), BAD);
-        all(x, 4);
-        due("16: all", x.rounds(0, 7), 1 << 14);
-        x.set(2, 3);
-        due("16: none", x.rounds(1, 3), 0);
-        x.way(1, 0, 0, 1);
-        x.way(1, 1, 1, 0);
-        due("16: 01, 10", x.rounds(1, 2), 2);
-        due("16: odd", x.rounds(1, 3), 0);
-        due("16: 0101, 1010", x.rounds(1, 4), 2);
-        // rows of WAYS may be longer than the row of LETTERS: 000.. goes round in a ring of three
-        x.set(2, 3);
-        x.way(2, 0, 0, 1);
-        x.way(2, 1, 0, 2);
-        x.way(2, 2, 0, 0);
-        due("16: by a longer ring", x.rounds(2, 1), 1);
-        due("16: no LOOP of one", x.loops(2, 1), 0);
-        // 1 may stand twice, and thrice, but not without end
-        x.set(2, 4);
-        x.way(3, 0, 0, 0);
-        x.way(3, 0, 1, 1);
-        x.way(3, 1, 1, 2);
-        x.way(3, 2, 1, 3);
-        x.way(3, 3, 0, 3);
-        due("16: not without end", x.rounds(3, 1), 1);
-        due("16: not without end", x.rounds(3, 3), 1);
-        byForbidding(x, 2, new int[] {1, 1});
-        int[] lucas = {1, 3, 4, 7, 11, 18, 29};
-        for (int n = 1; n <= 7; n++) {
-            due("16: golden " + n, x.rounds(4, n), lucas[n - 1]);
-        }
-        for (int odd : new int[] {0, -1, 8, TOP, LOW}) {
-            due("16: BAD n", x.rounds(0, odd), BAD);
-        }
-        due("16: BAD SET", x.rounds(5, 1), BAD);
-        due("16: BAD SET", x.rounds(LOW, 1), BAD);
+        promise(16);
+        holds("ROUNDS", "1 and 7 LETTERS; nothing LIVE; none so long", () -> {
+            Counted x = new Counted();
+            int golden = x.golden();
+            due("1", x.rounds(golden, 1), 1);
+            due("7", x.rounds(golden, 7), 29);
+            due("of four", x.rounds(x.all(4), 7), 1 << 14);
+            due("nothing LIVE", x.rounds(x.set(4, 16), 7), 0);
+            int seven = x.set(2, 7);
+            for (int s = 0; s < 7; s++) {
+                x.way(seven, s, s == 0 ? 1 : 0, (s + 1) % 7);
+            }
+            due("6 of 1000000", x.rounds(seven, 6), 0);
+            due("7 of 1000000", x.rounds(seven, 7), 7);
+        });
+        badSets("rounds", (x, set) -> x.rounds(set, 3));
+        badNumbers("rounds", 1, 7, (x, n) -> x.rounds(0, n));
     }
 
     private static void growth() {
-        RowRules x = new RowRules();
-        due("17: no SET", x.growth(0, 0, 0), BAD);
-        x.set(4, 16);
-        due("17: nothing LIVE", x.growth(0, 0, 0), NO);
-        due("17: BAD before NO", x.growth(0, 10, 0), BAD);
-        due("17: BAD before NO", x.growth(0, 0, 4), BAD);
-        byForbidding(x, 2, new int[] {1, 1});
-        long[] fib = {1, 1, 2, 3, 5, 8, 13, 21, 34, 55, 89, 144, 233};
-        for (int t = 0; t <= 9; t++) {
-            boolean even = t % 2 == 0;
-            long[] here = {fib[t + 2], fib[t + 1]};
-            long[] there = {fib[t + 1], fib[t]};
-            due("17: golden least above", x.growth(1, t, 0), even ? there[0] : here[0]);
-            due("17: golden least below", x.growth(1, t, 1), even ? there[1] : here[1]);
-            due("17: golden greatest above", x.growth(1, t, 2), even ? here[0] : there[0]);
-            due("17: golden greatest below", x.growth(1, t, 3), even ? here[1] : there[1]);
-        }
-        for (int f = 0; f < 16; f++) {
-            for (int l = 0; l < 4; l++) {
-                for (int t = 0; t < 16; t++) {
-                    x.way(0, f, l, t);
+        promise(17);
+        holds("GROWTH: what = 0, 1 the least above, below, 2, 3 the greatest", "by 0 and by 9", () -> {
+            Counted x = new Counted();
+            int golden = x.golden();
+            long[][] want = {{1, 1, 2, 1}, {144, 89, 89, 55}};
+            for (int what = 0; what < 4; what++) {
+                due("by 0, " + what, x.growth(golden, 0, what), want[0][what]);
+                due("by 9, " + what, x.growth(golden, 9, what), want[1][what]);
+            }
+        });
+        holds("GROWTH: what = 0, 1 the least above, below, 2, 3 the greatest", "one STATE: the least is the greatest", () -> {
+            Counted x = new Counted();
+            int four = x.all(4);
+            for (int t = 0; t <= 9; t++) {
+                for (int what = 0; what < 4; what++) {
+                    due("by " + t + ", " + what, x.growth(four, t, what), what % 2 == 0 ? 4 : 1);
                 }
             }
-        }
-        due("17: lowest terms", x.growth(0, 9, 0), 64);
-        due("17: lowest terms", x.growth(0, 9, 1), 1);
-        x.unway(0, 0, 0, 0);
-        // numbers near 2 to the 60th, and fractions that are apart by a little only
-        long v0 = 1, v = 1;
-        for (int i = 0; i < 9; i++) {
-            long next0 = 3 * v0 + 60 * v;
-            v = 4 * v0 + 60 * v;
-            v0 = next0;
-        }
-        java.math.BigInteger a0 = java.math.BigInteger.valueOf(3 * v0 + 60 * v), a = java.math.BigInteger.valueOf(4 * v0 + 60 * v);
-        java.math.BigInteger b0 = java.math.BigInteger.valueOf(v0), b = java.math.BigInteger.valueOf(v);
-        boolean zeroIsLess = a0.multiply(b).compareTo(a.multiply(b0)) < 0;
-        java.math.BigInteger g0 = a0.gcd(b0), g = a.gcd(b);
-        due("17: near ones, least", x.growth(0, 9, 0), (zeroIsLess ? a0.divide(g0) : a.divide(g)).longValueExact());
-        due("17: near ones, least below", x.growth(0, 9, 1), (zeroIsLess ? b0.divide(g0) : b.divide(g)).longValueExact());
-        due("17: near ones, greatest", x.growth(0, 9, 2), (zeroIsLess ? a.divide(g) : a0.divide(g0)).longValueExact());
-        due("17: near ones, greatest below", x.growth(0, 9, 3), (zeroIsLess ? b.divide(g) : b0.divide(g0)).longValueExact());
-        for (int odd : new int[] {-1, 10, TOP, LOW}) {
-            due("17: BAD t", x.growth(1, odd, 0), BAD);
-            due("17: BAD what", x.growth(1, 0, odd == 10 ? 4 : odd), BAD);
-            due("17: BAD SET", x.growth(odd, 0, 0), BAD);
-        }
+        });
+        badSets("growth", (x, set) -> x.growth(set, 3, 0));
+        badNumbers("growth by t", 0, 9, (x, t) -> x.growth(0, t, 0));
+        badNumbers("growth, what", 0, 3, (x, what) -> x.growth(0, 3, what));
+        holds("NO: nothing is LIVE", "no WAYS; WAYS that lead to an end", () -> {
+            Counted x = new Counted();
+            int none = x.set(4, 16);
+            int chain = x.graph(2, 2, new int[] {0, 0, 1});
+            for (int t = 0; t <= 9; t += 9) {
+                for (int what = 0; what < 4; what++) {
+                    int by = t;
+                    int told = what;
+                    refused(x, NO, "no WAYS, by " + t + ", " + what, () -> x.growth(none, by, told));
+                    refused(x, NO, "a chain, by " + t + ", " + what, () -> x.growth(chain, by, told));
+                }
+            }
+            x.way(chain, 1, 1, 0);
+            due("LIVE then", x.growth(chain, 0, 0), 1);
+        });
     }
 
     // ---- promise 18
 
     private static void same() {
-        RowRules x = new RowRules();
-        due("18: no SET", x.same(0, 0), BAD);
-        x.set(2, 3);
-        x.set(2, 1);
-        x.set(3, 1);
-        spell(x, 1, 1, 0);
-        due("18: both empty", x.same(0, 1), 1);
-        due("18: itself", x.same(0, 0), 1);
-        due("18: unlike many LETTERS", x.same(0, 2), NO);
-        due("18: BAD before NO", x.same(2, 3), BAD);
-        due("18: BAD", x.same(-1, 0), BAD);
-        due("18: BAD", x.same(TOP, LOW), BAD);
-        due("18: THE WORD stays", x.count(1), 3);
-        x.way(1, 0, 0, 0);
-        due("18: the empty WORD parts", x.same(0, 1), 0);
-        due("18: THE WORD is empty", x.count(1), 0);
-        spell(x, 1, 1, 0);
-        due("18: the other way round", x.same(1, 0), 0);
-        due("18: THE WORD is empty", x.count(1), 0);
-        // 0 without end, by three STATES
-        x.way(0, 0, 0, 1);
-        x.way(0, 1, 0, 2);
-        x.way(0, 2, 0, 0);
-        spell(x, 1, 1, 0);
-        due("18: the same", x.same(0, 1), 1);
-        due("18: THE WORD stays", x.count(1), 3);
-        x.way(0, 1, 1, 2);
-        due("18: by 1", x.same(1, 0), 0);
-        due("18: one LETTER", x.count(1), 1);
-        due("18: it is 1", x.letterAt(0), 1);
-        x.way(1, 0, 1, 0);
-        due("18: by 11", x.same(1, 0), 0);
-        due("18: two LETTERS", x.count(1), 2);
-        due("18: it is 11", x.letterAt(0) * 2 + x.letterAt(1), 3);
-        due("18: all may, these do not", x.may(1) * 2 + x.may(0), 2);
-        // the first of like long ones: 001 and 110 both part
-        int a = byForbidding(x, 2, new int[] {0, 0, 1}, new int[] {1, 1, 0});
-        x.unforbid();
-        int b = x.byWords(2);
-        due("18: by the first LETTER that differs", x.same(a, b), 0);
-        due("18: three LETTERS", x.count(1), 3);
-        due("18: 001", x.letterAt(0) * 4 + x.letterAt(1) * 2 + x.letterAt(2), 1);
+        promise(18);
+        holds("Whether two SETS are THE SAME: 1", "THE WORD stays then", () -> {
+            Counted x = new Counted();
+            int golden = x.golden();
+            int again = x.byWords(2);
+            x.spell(1, 1, 2);
+            long before = x.digest();
+            due("same", x.same(golden, again), 1);
+            due("same with itself", x.same(golden, golden), 1);
+            due("digest", x.digest(), before);
+        });
+        wordThatParts();
+        badSets("same, the first", (x, set) -> x.same(set, 0));
+        badSets("same, the other", (x, set) -> x.same(0, set));
+        holds("NO: unlike many LETTERS", "2 and 3, 3 and 4, 2 and 4, though nothing is LIVE", () -> {
+            Counted x = new Counted();
+            for (int k = 2; k <= 4; k++) {
+                x.set(k, 1);
+            }
+            x.spell(1, 2);
+            for (int i = 0; i < 9; i++) {
+                int one = i / 3;
+                int other = i % 3;
+                if (one != other) {
+                    refused(x, NO, "same(" + one + ", " + other + ")", () -> x.same(one, other));
+                } else {
+                    due("same(" + one + ", " + one + ")", x.same(one, one), 1);
+                }
+            }
+        });
+        holds("SPENT", "THE WORD stays then; later calls answer as ever", () -> {
+            Counted x = new Counted();
+            int ring = x.losingRing(15);
+            int all = x.all(2);
+            x.spell(2, 3);
+            refused(x, SPENT, "32767 sets with themselves", () -> x.same(ring, ring));
+            refused(x, SPENT, "fifteen 1 would part", () -> x.same(ring, all));
+            refused(x, SPENT, "the other way round", () -> x.same(all, ring));
+            due("howMany", x.howMany(ring, 15), (1 << 15) - 1);
+            due("same", x.same(all, all), 1);
+            int less = x.losingRing(14);
+            due("fourteen 1 part", x.same(less, all), 0);
+            Sentences.due("THE WORD", x.word(), "1".repeat(14));
+        });
     }
 
-    /** In rings of 7 and 9 only 62 noughts between two ones lead to the last place of both. */
-    private static void sameWordIsLong() {
-        RowRules x = new RowRules();
-        int any = all(x, 2);
-        int rings = x.set(2, 16);
-        for (int s = 0; s < 16; s++) {
-            boolean last = s == 6 || s == 15;
-            x.way(rings, s, 0, s == 6 ? 0 : s == 15 ? 7 : s + 1);
-            if (!last) {
-                x.way(rings, s, 1, 0);
-                x.way(rings, s, 1, 7);
+    private static void wordThatParts() {
+        String words = "0: THE WORD is that which PARTS them then (its first 30 LETTERS)";
+        holds(words, "none, one and two LETTERS, whatever THE WORD was", () -> {
+            Counted x = new Counted();
+            int none = x.set(2, 1);
+            int nought = x.only(2, 1);
+            int all = x.all(2);
+            int golden = x.golden();
+            x.spell(3, 3, 3);
+            due("same", x.same(none, all), 0);
+            Sentences.due("THE WORD", x.word(), "");
+            x.spell(3, 3, 3);
+            due("same", x.same(nought, all), 0);
+            Sentences.due("THE WORD", x.word(), "1");
+            due("same", x.same(golden, all), 0);
+            Sentences.due("THE WORD", x.word(), "11");
+            due("it MAY STAND in one alone", x.may(all) * 2 + x.may(golden), 2);
+            due("a LETTER comes behind it", x.letter(0), 3);
+        });
+        holds(words, "29 and 30 LETTERS: all of them", () -> {
+            for (int n = 27; n <= 28; n++) {
+                Counted x = new Counted();
+                int rings = x.rings(n);
+                int all = x.all(2);
+                due("same", x.same(rings, all), 0);
+                Sentences.due("THE WORD", x.word(), "1" + "0".repeat(n) + "1");
+                due("it MAY STAND in one alone", x.may(all) * 2 + x.may(rings), 2);
             }
-        }
-        due("18: part late", x.same(rings, any), 0);
-        due("18: thirty LETTERS of 64", x.count(1), 30);
-        due("18: the first", x.letterAt(0), 1);
-        for (int i = 1; i < 30; i++) {
-            due("18: then 0", x.letterAt(i), 0);
-        }
-        due("18: these MAY STAND in both", x.may(any) + x.may(rings), 2);
-        due("18: FULL", x.letter(0), FULL);
-        // with 5 and 7 the WORD has 1 + 34 + 1 LETTERS; with 3 and 4 all of its 13 find room
-        int few = x.set(2, 7);
-        for (int s = 0; s < 7; s++) {
-            x.way(few, s, 0, s == 2 ? 0 : s == 6 ? 3 : s + 1);
-            if (s != 2 && s != 6) {
-                x.way(few, s, 1, 0);
-                x.way(few, s, 1, 3);
+        });
+        holds(words, "31 LETTERS: all but the last", () -> {
+            Counted x = new Counted();
+            int rings = x.rings(29);
+            int all = x.all(2);
+            due("same", x.same(all, rings), 0);
+            Sentences.due("THE WORD", x.word(), "1" + "0".repeat(29));
+            due("so far it MAY STAND in both", x.may(all) * 2 + x.may(rings), 3);
+            due("FULL then", x.letter(1), FULL);
+        });
+        holds(words, "64 LETTERS, with rings of 7 and 9: thirty of them", () -> {
+            Counted x = new Counted();
+            int all = x.all(2);
+            int rings = x.set(2, 16);
+            for (int s = 0; s < 16; s++) {
+                x.way(rings, s, 0, s == 6 ? 0 : s == 15 ? 7 : s + 1);
+                if (s != 6 && s != 15) {
+                    x.way(rings, s, 1, 0);
+                    x.way(rings, s, 1, 7);
+                }
             }
-        }
-        due("18: part sooner", x.same(any, few), 0);
-        due("18: thirteen LETTERS", x.count(1), 13);
-        due("18: the first and the last", x.letterAt(0) * 2 + x.letterAt(12), 3);
-        due("18: 0 between", x.letterAt(1) + x.letterAt(11), 0);
-        due("18: MAY STAND in one alone", x.may(any) * 2 + x.may(few), 2);
-    }
-
-    private static final int[][] MEETS_20000 = {
-        {512, 16384, 64, 4, 8, 1024, 1, 32768, 16, 4096, 8192, 2, 2048, 256, 32, 8192},
-        {18, 128, 4096, 8, 1042, 1280, 16386, 6, 64, 1, 256, 2, 2128, 8192, 512, 16384}};
-    private static final int[][] MEETS_20001 = {
-        {48, 16384, 16, 9, 4100, 18, 10, 16, 128, 68, 2048, 36, 8, 512, 256, 4096},
-        {128, 16, 8192, 32, 512, 2048, 1024, 2, 4, 16384, 256, 4096, 32768, 32, 64, 1}};
-
-    private static void sameIsSpent() {
-        RowRules x = new RowRules();
-        int just = graph(x, 16, MEETS_20000);
-        int over = graph(x, 16, MEETS_20001);
-        int any = all(x, 2);
-        int ring = losingRing(x, 15);
-        int small = losingRing(x, 14);
-        due("18: all LIVE", x.about(just, 3) + x.about(over, 3), 32);
-        spell(x, 0, 1);
-        due("18: 20000 are met", x.same(just, just), 1);
-        due("18: 20000 are met", x.same(just, any), 1);
-        due("18: 20001 are met", x.same(over, over), SPENT);
-        due("18: 20001 are met", x.same(any, over), SPENT);
-        due("18: too many with itself", x.same(ring, ring), SPENT);
-        due("18: THE WORD stays", x.count(1), 2);
-        due("18: it is met late, but is met", x.same(small, any), 0);
-        due("18: fourteen", x.count(1), 14);
-        for (int i = 0; i < 14; i++) {
-            due("18: of ones", x.letterAt(i), 1);
-        }
-        due("18: again", x.same(just, just), 1);
-        due("18: again", x.same(over, over), SPENT);
+            due("same", x.same(rings, all), 0);
+            Sentences.due("THE WORD", x.word(), "1" + "0".repeat(29));
+        });
     }
 
     // ---- promises 19, 20
 
-    private static void partPace() {
-        RowRules x = new RowRules();
-        due("19: no SET", x.part(0, 0), BAD);
-        due("20: no SET", x.pace(0, 0), BAD);
-        x.set(2, 16);
-        due("19: not LIVE", x.part(0, 0), NONE);
-        due("20: not LIVE", x.pace(0, 0), NONE);
-        // rings 1 4 7 10 (paces 4 and, by 10 to 7, 2), 3 alone between, 2 5 8 of pace 3, 15 alone by itself, 0 dead
-        int[][] ways = {{1, 4}, {4, 7}, {7, 10}, {10, 1}, {10, 3}, {3, 2}, {2, 5}, {5, 8}, {8, 2}, {15, 15}, {0, 1}, {8, 9}};
-        for (int[] w : ways) {
-            due("way", x.way(0, w[0], 0, w[1]), 1);
-        }
-        int[] part = {-1, 1, 2, 3, 1, 2, -1, 1, 2, -1, 1, -1, -1, -1, -1, 15};
-        int[] pace = {-1, 4, 3, 0, 4, 3, -1, 4, 3, -1, 4, -1, -1, -1, -1, 1};
-        for (int s = 0; s < 16; s++) {
-            due("19: part " + s, x.part(0, s), part[s]);
-            due("20: pace " + s, x.pace(0, s), pace[s]);
-        }
-        due("11: PARTS", x.about(0, 5), 4);
-        x.way(0, 10, 1, 7);
-        due("20: 4 and 2", x.pace(0, 4), 2);
-        x.way(0, 10, 1, 4);
-        due("20: 4, 2 and 3", x.pace(0, 4), 1);
-        x.way(0, 2, 1, 1);
-        for (int s : new int[] {1, 2, 3, 4, 5, 7, 8, 10}) {
-            due("19: one PART", x.part(0, s), 1);
-        }
-        for (int odd : new int[] {-1, 16, TOP, LOW}) {
-            due("19: BAD STATE", x.part(0, odd), BAD);
-            due("20: BAD STATE", x.pace(0, odd), BAD);
-            due("19: BAD SET", x.part(odd, 0), BAD);
-            due("20: BAD SET", x.pace(odd, 0), BAD);
-        }
-        int ring = x.set(2, 16);
-        for (int s = 0; s < 16; s++) {
-            x.way(ring, s, 0, (s + 5) % 16);
-        }
-        due("19: the whole ring", x.part(ring, 11), 0);
-        due("20: the whole ring", x.pace(ring, 11), 16);
-        x.way(ring, 3, 1, 3 + 10);
-        due("20: a short cut of 15", x.pace(ring, 11), 1);
-        // three layers of five: each STATE leads to two of the next layer
-        int layers = x.set(2, 15);
-        for (int s = 0; s < 15; s++) {
-            int next = (s / 5 + 1) % 3 * 5;
-            x.way(layers, s, 0, next + s * 2 % 5);
-            x.way(layers, s, 0, next + (s + 3) % 5);
-        }
-        for (int s = 0; s < 15; s++) {
-            due("19: all layers", x.part(layers, s), 0);
-            due("20: of three layers", x.pace(layers, s), 3);
-        }
-        x.way(layers, 14, 1, 7);
-        due("20: a way back by one layer", x.pace(layers, 0), 1);
+    /** 1 4 7 10 in a ring, 3 alone between, 2 5 8 in a ring, 15 by itself; the others lead to them or from them. */
+    private static final int[][] RINGS = {{1, 0, 4}, {4, 0, 7}, {7, 0, 10}, {10, 0, 1}, {10, 0, 3}, {3, 0, 2}, {2, 0, 5}, {5, 0, 8}, {8, 0, 2},
+        {15, 0, 15}, {0, 0, 1}, {8, 0, 9}, {11, 0, 12}};
+
+    private static void part() {
+        promise(19);
+        holds("The PART of a STATE", "the least of its own, not of all that it leads to", () -> {
+            Counted x = new Counted();
+            x.graph(2, 16, RINGS);
+            int[] want = {NONE, 1, 2, 3, 1, 2, NONE, 1, 2, NONE, 1, NONE, NONE, NONE, NONE, 15};
+            for (int s = 0; s < 16; s++) {
+                due("part(0, " + s + ")", x.part(0, s), want[s]);
+            }
+            x.way(0, 2, 1, 1);
+            for (int s : new int[] {1, 2, 3, 4, 5, 7, 8, 10}) {
+                due("one PART", x.part(0, s), 1);
+            }
+            due("0 is told as 0", x.part(x.all(2), 0), 0);
+        });
+        holds("NONE: not LIVE", "led to, leading, neither", () -> {
+            Counted x = new Counted();
+            x.graph(2, 16, RINGS);
+            for (int s : new int[] {0, 6, 9, 11, 12, 13, 14}) {
+                int state = s;
+                refused(x, NONE, "part(0, " + s + ")", () -> x.part(0, state));
+            }
+        });
+        badSetsAndStates("part", Counted::part);
     }
 
-    // ---- promises 21, 22
-
-    private static void windowTells() {
-        RowRules x = new RowRules();
-        for (int w = 1; w <= 3; w++) {
-            int rows = 1 << 2 * w;
-            due("21: window", x.window(w), 1);
-            due("21: w", x.count(3), w);
-            for (int row = 0; row < rows; row++) {
-                due("22: 0 at first", x.tells(row, (row * 5 + w) % 4), 0);
+    private static void pace() {
+        promise(20);
+        holds("THE PACE of a STATE's PART", "0, 1 and 16", () -> {
+            Counted x = new Counted();
+            x.graph(2, 16, RINGS);
+            int[] want = {NONE, 4, 3, 0, 4, 3, NONE, 4, 3, NONE, 4, NONE, NONE, NONE, NONE, 1};
+            for (int s = 0; s < 16; s++) {
+                due("pace(0, " + s + ")", x.pace(0, s), want[s]);
             }
-            for (int row = 0; row < rows; row++) {
-                due("22: what it was", x.tells(row, 3), (row * 5 + w) % 4);
+            int ring = liveRing(x, 16);
+            due("sixteen", x.pace(ring, 15), 16);
+            x.way(ring, 3, 1, 5);
+            due("sixteen and fifteen", x.pace(ring, 15), 1);
+        });
+        holds("THE PACE of a STATE's PART", "three layers of five, and a WAY back by one", () -> {
+            Counted x = new Counted();
+            x.set(2, 15);
+            for (int s = 0; s < 15; s++) {
+                int next = (s / 5 + 1) % 3 * 5;
+                x.way(0, s, 0, next + s * 2 % 5);
+                x.way(0, s, 0, next + (s + 3) % 5);
             }
-            for (int odd : new int[] {-1, rows, TOP, LOW}) {
-                due("22: BAD row", x.tells(odd, 0), BAD);
+            for (int s = 0; s < 15; s++) {
+                due("pace(0, " + s + ")", x.pace(0, s), 3);
             }
-            for (int odd : new int[] {-1, 4, TOP, LOW}) {
-                due("22: BAD LETTER", x.tells(0, odd), BAD);
+            x.way(0, 14, 1, 7);
+            due("pace(0, 0)", x.pace(0, 0), 1);
+        });
+        holds("NONE: not LIVE", "led to, leading, neither", () -> {
+            Counted x = new Counted();
+            x.graph(2, 16, RINGS);
+            for (int s : new int[] {0, 6, 9, 11, 12, 13, 14}) {
+                int state = s;
+                refused(x, NONE, "pace(0, " + s + ")", () -> x.pace(0, state));
             }
-            due("22: BAD changes nothing", x.tells(0, 3), 3);
-        }
-        for (int odd : new int[] {0, 4, -1, TOP, LOW}) {
-            due("21: BAD", x.window(odd), BAD);
-        }
-        due("21: w stays", x.count(3), 3);
-        due("21: what it tells stays", x.tells(63, 3), 3);
-        due("21: anew", x.window(3), 1);
-        for (int row = 0; row < 64; row++) {
-            due("21: all 0", x.tells(row, 0), 0);
-        }
+        });
+        badSetsAndStates("pace", Counted::pace);
     }
 
-    // ---- promise 23
+    // ---- promises 21, 22, 23
+
+    private static void window() {
+        promise(21);
+        holds("A WINDOW of w, all 0: 1", "of each w, whatever was told before", () -> {
+            Counted x = new Counted();
+            for (int w : new int[] {3, 1, 2, 3, 3, 2, 1}) {
+                due("window(" + w + ")", x.window(w), 1);
+                due("count(3)", x.count(3), w);
+                int last = (1 << 2 * w) - 1;
+                due("the first row", x.tells(0, 3), 0);
+                due("the last row", x.tells(last, 3), 0);
+                due("a row amid", x.tells(last / 2, 3), 0);
+            }
+            x.window(3);
+            for (int row = 0; row < 64; row++) {
+                due("row " + row, x.tells(row, 1), 0);
+            }
+        });
+        holds("BAD", "less than 1, more than 3: what was told stays", () -> {
+            Counted x = new Counted();
+            x.window(2);
+            x.tells(15, 2);
+            for (int odd : outside(1, 3)) {
+                refused(x, BAD, "window(" + odd + ")", () -> x.window(odd));
+            }
+            due("count(3)", x.count(3), 2);
+            due("what it tells", x.tells(15, 0), 2);
+        });
+    }
+
+    private static void tells() {
+        promise(22);
+        String words = "What it tells for a row (as a number to the base 4, whatever SET it is for): what it was";
+        holds(words, "each row of each w, 0 to 3", () -> {
+            Counted x = new Counted();
+            for (int w = 1; w <= 3; w++) {
+                x.window(w);
+                int rows = 1 << 2 * w;
+                for (int row = 0; row < rows; row++) {
+                    due("0 at first", x.tells(row, (row * 5 + w) % 4), 0);
+                }
+                for (int row = 0; row < rows; row++) {
+                    due("what it was", x.tells(row, 3), (row * 5 + w) % 4);
+                }
+            }
+        });
+        holds(words, "rows that no SET has, and LETTERS that none has", () -> {
+            Counted x = new Counted();
+            x.all(2);
+            x.window(3);
+            due("row 333", x.tells(63, 3), 0);
+            due("row 333", x.tells(63, 2), 3);
+            due("it does no harm", x.maps(0, 0), 1);
+        });
+        holds("BAD", "no such row: below 0, 4 to the w-th", () -> {
+            Counted x = new Counted();
+            for (int w = 1; w <= 3; w++) {
+                x.window(w);
+                for (int odd : outside(0, (1 << 2 * w) - 1)) {
+                    refused(x, BAD, "tells(" + odd + ", 1)", () -> x.tells(odd, 1));
+                }
+            }
+            x.window(1);
+            refused(x, BAD, "row 63 of one LETTER", () -> x.tells(63, 1));
+        });
+        holds("BAD", "no LETTER: below 0, above 3", () -> {
+            Counted x = new Counted();
+            x.tells(0, 2);
+            for (int odd : outside(0, 3)) {
+                refused(x, BAD, "tells(0, " + odd + ")", () -> x.tells(0, odd));
+            }
+            due("what it was", x.tells(0, 0), 2);
+        });
+    }
 
     private static void maps() {
-        RowRules x = new RowRules();
-        due("23: no SET", x.maps(0, 0), BAD);
-        x.set(2, 1);
-        int any = all(x, 2);
-        due("23: nothing into nothing", x.maps(0, 0), 1);
-        due("23: nothing into all", x.maps(0, any), 1);
-        due("23: the empty WORD does not stand", x.maps(any, 0), 0);
-        int golden = byForbidding(x, 2, new int[] {1, 1});
-        due("23: all to 0", x.maps(any, golden), 1);
-        x.tells(1, 1);
-        due("23: as it is", x.maps(any, any), 1);
-        due("23: 11 comes", x.maps(any, golden), 0);
-        due("23: none comes", x.maps(golden, golden), 1);
-        x.tells(0, 1);
-        x.tells(1, 0);
-        due("23: turned over", x.maps(golden, golden), 0);
-        x.window(2);
-        // 1 just where 01 stands
-        x.tells(1, 1);
-        due("23: 01 never meets itself", x.maps(any, golden), 1);
-        x.tells(4, 1);
-        due("23: 010 makes 11", x.maps(any, golden), 0);
-        x.tells(4, 2);
-        due("23: a LETTER that it has not", x.maps(any, any), 0);
-        x.tells(4, 0);
-        x.tells(15, 3);
-        x.tells(7, 3);
-        due("23: rows that it has not", x.maps(any, golden), 1);
-        x.window(3);
-        // 1 just where 1 stands, 0 ahead and behind (row 0 1 0 is 4)
-        x.tells(4, 1);
-        due("23: three LETTERS", x.maps(any, golden), 1);
-        int thin = byForbidding(x, 2, new int[] {1, 1}, new int[] {1, 0, 1});
-        due("23: 01010 makes 101", x.maps(any, thin), 0);
-        due("23: but not from one without", x.maps(thin, thin), 1);
-        x.tells(1, 1);
-        due("23: 001 and 010 make 11", x.maps(thin, thin), 0);
-        // first LETTER highest: 0 0 1 is 1, 1 0 0 is 16
-        x.window(3);
-        x.tells(16, 1);
-        due("23: 100 alone", x.maps(thin, thin), 1);
-        due("23: of four LETTERS", x.set(4, 1), 4);
-        x.way(4, 0, 3, 0);
-        due("23: the last row tells 0", x.maps(4, any), 1);
-        x.tells(63, 2);
-        due("23: the last row tells 2", x.maps(4, any), 0);
-        x.tells(63, 3);
-        due("23: into itself", x.maps(4, 4), 1);
-        for (int odd : new int[] {-1, 5, TOP, LOW}) {
-            due("23: BAD", x.maps(odd, 0), BAD);
-            due("23: BAD", x.maps(0, odd), BAD);
-        }
-        windowOfThree();
-    }
-
-    private static void windowOfThree() {
-        RowRules x = new RowRules();
-        int ones = x.set(2, 1);
-        x.way(ones, 0, 1, 0);
-        int noughts = x.set(2, 1);
-        x.way(noughts, 0, 0, 0);
-        x.window(3);
-        x.tells(0, 1);
-        due("23: noughts to ones", x.maps(noughts, ones), 1);
-        due("23: noughts to noughts", x.maps(noughts, noughts), 0);
-        due("23: ones to noughts", x.maps(ones, noughts), 1);
-        x.tells(21, 1);
-        due("23: ones to ones", x.maps(ones, ones), 1);
-        due("23: ones to noughts no more", x.maps(ones, noughts), 0);
-        x.way(noughts, 0, 1, 0);
-        due("23: rows between tell 0", x.maps(noughts, ones), 0);
-        for (int row : new int[] {1, 4, 5, 16, 17, 20}) {
-            x.tells(row, 1);
-        }
-        due("23: all rows tell 1", x.maps(noughts, ones), 1);
-    }
-
-    private static void mapsIsSpent() {
-        RowRules x = new RowRules();
-        int just = graph(x, 16, MEETS_20000);
-        int over = graph(x, 16, MEETS_20001);
-        int any = all(x, 2);
-        int two = x.set(2, 2);
-        for (int s = 0; s < 2; s++) {
-            x.way(two, s, s, 0);
-            x.way(two, s, s, 1);
-        }
-        x.tells(1, 1);
-        due("23: 20000 are met", x.maps(any, just), 1);
-        due("23: 20001 are met", x.maps(any, over), SPENT);
-        due("23: two beginnings", x.maps(two, just), SPENT);
-        int ring = losingRing(x, 15);
-        due("23: SPENT before it is seen", x.maps(any, ring), SPENT);
-        int small = losingRing(x, 14);
-        due("23: seen in time", x.maps(any, small), 0);
-        x.window(2);
-        x.tells(1, 1);
-        x.tells(5, 1);
-        due("23: the last LETTER is met too", x.maps(any, just), SPENT);
-        due("23: all rows to 0", x.window(2) + x.maps(any, over), 2);
+        promise(23);
+        holds("Whether it MAPS a SET into another one: 1, 0", "each LETTER to itself; 0 and 1 turned over", () -> {
+            Counted x = new Counted();
+            int all = x.all(2);
+            int golden = x.golden();
+            x.tells(1, 1);
+            due("golden into all", x.maps(golden, all), 1);
+            due("all into golden", x.maps(all, golden), 0);
+            due("golden into itself", x.maps(golden, golden), 1);
+            x.tells(0, 1);
+            x.tells(1, 0);
+            due("golden into itself", x.maps(golden, golden), 0);
+            due("all into itself", x.maps(all, all), 1);
+        });
+        holds("Whether it MAPS a SET into another one: 1, 0", "nothing changes, THE WORD neither", () -> {
+            Counted x = new Counted();
+            int all = x.all(2);
+            int golden = x.golden();
+            x.spell(1, 0, 1);
+            x.tells(1, 1);
+            long before = x.digest();
+            due("maps", x.maps(all, golden), 0);
+            due("maps", x.maps(golden, all), 1);
+            due("digest", x.digest(), before);
+        });
+        holds("Whether it MAPS a SET into another one: 1, 0", "it fails late: at the fourteenth LETTER, at the last row of three", () -> {
+            Counted x = new Counted();
+            int all = x.all(2);
+            x.tells(1, 1);
+            due("fourteen 1", x.maps(all, x.losingRing(14)), 0);
+            int four = x.all(4);
+            int nought = x.only(2, 1);
+            x.window(3);
+            due("all to 0", x.maps(four, nought), 1);
+            x.tells(63, 1);
+            due("333 to 1", x.maps(four, nought), 0);
+            x.tells(63, 3);
+            due("333 to 3", x.maps(four, all), 0);
+            due("333 to 3", x.maps(four, four), 1);
+        });
+        badSets("maps, from", (x, set) -> x.maps(set, 0));
+        badSets("maps, into", (x, set) -> x.maps(0, set));
+        holds("SPENT", "more than 20000 sets, nothing fails; later calls answer as ever", () -> {
+            Counted x = new Counted();
+            int ring = x.losingRing(15);
+            int all = x.all(2);
+            int golden = x.golden();
+            x.tells(1, 1);
+            // with it there are two WAYS by 1 to STATE 13, but no STATE without: no row loses all
+            x.way(ring, 14, 1, 13);
+            due("1 without end", x.maps(x.graph(2, 1, new int[] {0, 1, 0}), ring), 1);
+            refused(x, SPENT, "maps", () -> x.maps(all, ring));
+            due("maps", x.maps(golden, golden), 1);
+            due("same", x.same(golden, all), 0);
+        });
     }
 
     // ---- promises 24, 25
 
-    private static void weightsWeight() {
-        RowRules x = new RowRules();
-        due("24: no SET", x.weights(0, 1, 1, 1), BAD);
-        due("25: no SET", x.weight(0, 1, 1, 1, 0), BAD);
-        byForbidding(x, 2, new int[] {1, 1});
-        due("24: two in three", x.weights(0, 2, 3, 10), 16);
-        due("25: of 0", x.weight(0, 2, 3, 10, 0), 10);
-        due("25: of 1", x.weight(0, 2, 3, 10, 1), 6);
-        due("24: at most 2", x.weights(0, 2, 3, 2), 3);
-        due("24: at most 1", x.weights(0, 2, 3, 1), 0);
-        due("25: at most 1", x.weight(0, 2, 3, 1, 0), 0);
-        due("24: three in four is too much", x.weights(0, 3, 4, 100), 0);
-        due("24: one in one is too much", x.weights(0, 1, 1, 100), 0);
-        x.set(4, 16);
-        due("24: nothing LIVE", x.weights(1, 1, 1, 1), 0);
-        due("25: not LIVE", x.weight(1, 1, 1, 1, 15), 0);
-        for (int f = 0; f < 16; f++) {
-            for (int l = 0; l < 4; l++) {
-                for (int t = 0; t < 16; t++) {
-                    x.way(1, f, l, t);
-                }
-            }
-        }
-        due("24: all at most", x.weights(1, 8, 4, 100), 1600);
-        due("24: 64 by 2 to the 6th", x.weights(1, 6, 1, 7), 112);
-        due("24: 64 by 2 to the 7th", x.weights(1, 7, 1, 100), 0);
-        int[][] odd = {{0, 1, 1}, {9, 1, 1}, {-1, 1, 1}, {TOP, 1, 1}, {1, 0, 1}, {1, 5, 1}, {1, LOW, 1}, {1, 1, 0}, {1, 1, 101}, {1, 1, TOP}};
-        for (int[] o : odd) {
-            due("24: BAD", x.weights(0, o[0], o[1], o[2]), BAD);
-            due("25: BAD", x.weight(0, o[0], o[1], o[2], 0), BAD);
-        }
-        for (int s : new int[] {-1, 2, TOP, LOW}) {
-            due("25: BAD STATE", x.weight(0, 2, 3, 10, s), BAD);
-            due("24: BAD SET", x.weights(s, 2, 3, 10), BAD);
-            due("25: BAD SET", x.weight(s, 2, 3, 10, 0), BAD);
-        }
-        // a STATE that is not LIVE adds nothing, though WAYS lead from it
-        x.set(2, 3);
-        x.way(2, 0, 0, 0);
-        x.way(2, 0, 1, 0);
-        x.way(2, 0, 1, 1);
-        x.way(2, 2, 0, 0);
-        due("24: LIVE ones alone", x.weights(2, 1, 1, 9), 9);
-        due("25: not LIVE", x.weight(2, 1, 1, 9, 1) + x.weight(2, 1, 1, 9, 2), 0);
-        // a little too much for it: they fall by and by, 153 times, till none are left
-        int slow = x.set(2, 6);
-        int[][] ways = {{3, 0, 4}, {4, 1, 0}, {0, 1, 3}, {5, 1, 2}, {1, 0, 3}, {3, 1, 5}, {4, 1, 5}, {2, 1, 4}, {0, 1, 1}, {4, 1, 1},
-            {5, 1, 3}, {1, 1, 1}, {2, 1, 5}, {2, 0, 5}, {2, 0, 1}, {4, 0, 4}, {3, 1, 1}, {3, 0, 0}};
-        for (int[] w : ways) {
-            due("way", x.way(slow, w[0], w[1], w[2]), 1);
-        }
-        due("24: all LIVE", x.about(slow, 3), 6);
-        due("24: by and by", x.weights(slow, 3, 2, 100), 0);
-        due("25: by and by", x.weight(slow, 3, 2, 100, 1), 0);
+    private interface OfCoder {
+        int answer(Counted x, int set, int p, int q, int most);
     }
 
-    // ---- promises 26, 27
+    private static void badCoders(String name, OfCoder call) {
+        badSets(name, (x, set) -> call.answer(x, set, 1, 1, 1));
+        badNumbers(name + ", p", 1, 8, (x, p) -> call.answer(x, 0, p, 1, 1));
+        badNumbers(name + ", q", 1, 4, (x, q) -> call.answer(x, 0, 1, q, 1));
+        badNumbers(name + ", at most", 1, 100, (x, most) -> call.answer(x, 0, 1, 1, most));
+    }
+
+    private static void weights() {
+        promise(24);
+        holds("THE WEIGHTS' sum (0: there are none such)", "1 and 100 at most", () -> {
+            Counted x = new Counted();
+            int golden = x.golden();
+            due("2 in 3, 100 at most", x.weights(golden, 2, 3, 100), 166);
+            due("2 in 3, 10 at most", x.weights(golden, 2, 3, 10), 16);
+            due("1 in 2, 1 at most", x.weights(golden, 1, 2, 1), 2);
+            due("sixteen STATES", x.weights(x.byForbidding(4, new int[] {0, 0, 0}), 1, 1, 100), 1600);
+        });
+        holds("THE WEIGHTS' sum (0: there are none such)", "none such", () -> {
+            Counted x = new Counted();
+            int golden = x.golden();
+            due("2 in 3, 1 at most", x.weights(golden, 2, 3, 1), 0);
+            due("3 in 4", x.weights(golden, 3, 4, 100), 0);
+            due("1 in 1", x.weights(golden, 1, 1, 100), 0);
+            due("8 in 4 of three LETTERS", x.weights(x.all(3), 8, 4, 100), 0);
+            due("8 in 4 of four LETTERS", x.weights(x.all(4), 8, 4, 100), 100);
+        });
+        holds("THE WEIGHTS' sum (0: there are none such)", "nothing LIVE", () -> {
+            Counted x = new Counted();
+            due("no WAYS", x.weights(x.set(4, 16), 1, 1, 100), 0);
+            due("a chain", x.weights(x.graph(2, 2, new int[] {0, 0, 1}), 1, 4, 100), 0);
+        });
+        badCoders("weights", Counted::weights);
+    }
+
+    private static void weight() {
+        promise(25);
+        holds("A STATE's of THE WEIGHTS (0: not LIVE)", "they sum up; they may be unlike", () -> {
+            Counted x = new Counted();
+            int golden = x.golden();
+            due("of 0", x.weight(golden, 2, 3, 10, 0), 10);
+            due("of 1", x.weight(golden, 2, 3, 10, 1), 6);
+            due("of 0", x.weight(golden, 2, 3, 1, 0), 0);
+            int set = x.byForbidding(2, new int[] {1, 0, 1, 1}, new int[] {0, 0, 0, 0, 0});
+            int sum = 0;
+            for (int s = 0; s < 16; s++) {
+                sum += x.weight(set, 3, 4, 100, s);
+            }
+            due("sum", sum, x.weights(set, 3, 4, 100));
+            due("some", sum > 0 ? 1 : 0, 1);
+        });
+        holds("A STATE's of THE WEIGHTS (0: not LIVE)", "led to, leading, neither; nothing LIVE", () -> {
+            Counted x = new Counted();
+            int set = x.graph(2, 4, new int[] {0, 0, 0}, new int[] {0, 1, 0}, new int[] {0, 1, 1}, new int[] {2, 0, 0}, new int[] {2, 1, 0});
+            due("LIVE", x.weight(set, 1, 1, 9, 0), 9);
+            for (int s = 1; s < 4; s++) {
+                due("not LIVE", x.weight(set, 1, 1, 9, s), 0);
+            }
+            due("nothing LIVE", x.weight(x.set(4, 16), 1, 1, 1, 15), 0);
+        });
+        badCoders("weight", (x, set, p, q, most) -> x.weight(set, p, q, most, 0));
+        badSetsAndStates("weight", (x, set, state) -> x.weight(set, 1, 1, 1, state));
+    }
+
+    // ---- promise 26
 
     private static void count() {
-        RowRules x = new RowRules();
-        x.set(2, 2);
-        x.byWords(3);
-        x.letter(1);
-        x.letter(2);
-        x.letter(0);
-        x.forbid();
-        x.forbid();
-        x.forbid();
-        x.forbid();
-        x.window(3);
-        int[] want = {2, 3, 4, 3};
+        promise(26);
+        holds("How many: 0 SETS, 1 LETTERS of THE WORD, 2 WORDS to be FORBIDDEN, 3 w", "none, some, full", () -> {
+            Counted x = new Counted();
+            countsAre(x, 0, 0, 0, 1);
+            x.set(2, 2);
+            x.byWords(3);
+            x.spell(1, 2, 0);
+            for (int i = 0; i < 4; i++) {
+                x.forbid();
+            }
+            x.window(3);
+            countsAre(x, 2, 3, 4, 3);
+            while (x.set(4, 16) >= 0) {
+                due("one more", x.count(0) <= 6 ? 1 : 0, 1);
+            }
+            while (x.forbid() >= 0) {
+                due("one more", x.count(2) <= 8 ? 1 : 0, 1);
+            }
+            while (x.letter(3) >= 0) {
+                due("one more", x.count(1) <= 30 ? 1 : 0, 1);
+            }
+            x.window(2);
+            countsAre(x, 6, 30, 8, 2);
+            x.empty();
+            x.unforbid();
+            countsAre(x, 6, 0, 0, 2);
+        });
+        holds("BAD", "below 0, above 3", () -> {
+            Counted x = new Counted();
+            for (int odd : outside(0, 3)) {
+                refused(x, BAD, "count(" + odd + ")", () -> x.count(odd));
+            }
+        });
+    }
+
+    private static void countsAre(Counted x, int... want) {
         for (int what = 0; what < 4; what++) {
-            due("26: count " + what, x.count(what), want[what]);
+            due("count(" + what + ")", x.count(what), want[what]);
         }
-        for (int odd : new int[] {-1, 4, TOP, LOW}) {
-            due("26: BAD", x.count(odd), BAD);
+    }
+
+    // ---- promise 27
+
+    /** By big numbers, of which the last 64 bits are told: so the wrap-around is the test's own. */
+    private static long digestOf(long... values) {
+        java.math.BigInteger h = java.math.BigInteger.valueOf(193);
+        for (long v : values) {
+            h = h.multiply(java.math.BigInteger.valueOf(31)).add(java.math.BigInteger.valueOf(v));
         }
+        return h.longValue();
+    }
+
+    /** Of an object with one SET of four LETTERS and sixteen STATES, of which just 15 may be LIVE, and 0 if it leads to 15. */
+    private static long digestOfWays(int[]... ways) {
+        java.util.ArrayList<Long> values = new java.util.ArrayList<>(java.util.List.of(1L, 0L, 0L, 1L, 4L, 16L));
+        values.add((long) ways.length);
+        values.add(ways.length == 0 ? 0L : 2L);
+        values.add((long) ways.length);
+        long[] bits = new long[64];
+        for (int[] way : ways) {
+            bits[way[0] * 4 + way[1]] += 1L << way[2];
+        }
+        for (long b : bits) {
+            values.add(b);
+        }
+        for (int row = 0; row < 4; row++) {
+            values.add(0L);
+        }
+        return digestOf(values.stream().mapToLong(v -> v).toArray());
     }
 
     private static void digest() {
-        RowRules x = new RowRules();
-        x.set(3, 2);
-        x.way(0, 0, 2, 1);
-        x.way(0, 0, 2, 0);
-        x.way(0, 0, 1, 1);
-        x.set(2, 1);
-        spell(x, 2, 1);
-        x.forbid();
-        spell(x, 3);
-        x.forbid();
-        spell(x, 0, 1, 3);
-        x.window(2);
-        x.tells(14, 3);
-        long h = 193;
-        long[] values = {2, 3, 2, 2, 3, 2, 3, 1, 1, 0, 2, 3, 0, 0, 0, 2, 1, 0, 0, 0, 0, 0, 0, 1, 3, 2, 2, 1, 1, 3,
-            0, 0, 0, 0, 0, 0, 0, 0, 0, 0, 0, 0, 0, 0, 3, 0};
-        for (long v : values) {
-            h = 31 * h + v;
-        }
-        due("27: digest", x.digest(), h);
-        due("27: again", x.digest(), h);
-        x.window(2);
-        due("27: it is another one", x.digest() == h ? 1 : 0, 0);
-    }
-
-    /** Every call with numbers that are not as told: nothing changes, whatever was asked. */
-    private static void refusedChangesNothing() {
-        RowRules x = new RowRules();
-        byForbidding(x, 2, new int[] {1, 1});
-        all(x, 3);
-        spell(x, 0, 1, 0);
-        x.window(2);
-        x.tells(5, 1);
-        long was = x.digest();
-        for (int odd : new int[] {LOW, -1000000007, -7, -1, 99, 101, 65536, 1 << 28, TOP}) {
-            int[] got = {x.set(odd, odd), x.way(odd, odd, odd, odd), x.unway(odd, odd, odd, odd), x.letter(odd),
-                x.byWords(odd), x.about(odd, odd), x.live(odd, odd), x.may(odd), (int) x.howMany(odd, odd), (int) x.loops(odd, odd),
-                x.rounds(odd, odd), (int) x.growth(odd, odd, odd), x.same(odd, odd), x.part(odd, odd), x.pace(odd, odd), x.window(odd),
-                x.tells(odd, odd), x.maps(odd, odd), x.weights(odd, odd, odd, odd), x.weight(odd, odd, odd, odd, odd), x.count(odd)};
-            for (int i = 0; i < got.length; i++) {
-                due("BAD of call " + i + " with " + odd, got[i], BAD);
+        promise(27);
+        holds("h = 193", "a new object", () -> {
+            Counted x = new Counted();
+            due("digest()", x.digest(), digestOf(0, 0, 0, 1, 0, 0, 0, 0));
+            due("again", x.digest(), digestOf(0, 0, 0, 1, 0, 0, 0, 0));
+        });
+        holds("then h = 31 h + v for each v: count(0) to count(3)", "in their order, with the wrap-around of a long", () -> {
+            Counted x = new Counted();
+            x.spell(3, 1);
+            x.forbid();
+            x.spell(2);
+            due("digest()", x.digest(), digestOf(0, 1, 1, 1, 2, 2, 3, 1, 0, 0, 0, 0));
+            while (x.letter(3) > 0) {
+                due("below 0 or above", x.digest() != 0 ? 1 : 0, 1);
             }
-            due("NONE", x.letterAt(odd), NONE);
-            due("digest behind", x.digest(), was);
-        }
-        for (int set = 0; set < 2; set++) {
-            x.about(set, 5);
-            x.live(set, 0);
-            x.may(set);
-            x.howMany(set, 9);
-            x.loops(set, 9);
-            x.rounds(set, 5);
-            x.growth(set, 4, 2);
-            x.same(set, set);
-            x.same(set, 1 - set);
-            x.part(set, 0);
-            x.pace(set, 0);
-            x.maps(set, 1 - set);
-            x.weights(set, 1, 2, 3);
-            x.weight(set, 1, 2, 3, 0);
-            x.way(set, 0, 0, 0);
-        }
-        due("questions change nothing", x.digest(), was);
+            long[] values = new long[4 + 30 + 3 + 4];
+            java.util.Arrays.fill(values, 4, 34, 3);
+            values[1] = 30;
+            values[2] = 1;
+            values[3] = 1;
+            values[4] = 2;
+            values[34] = 2;
+            values[35] = 3;
+            values[36] = 1;
+            due("digest()", x.digest(), digestOf(values));
+        });
+        holds("of SETS about(.., 0) to (.., 4), of STATES, of LETTERS the bits of STATES to which WAYS lead", "two SETS, one behind the other", () -> {
+            Counted x = new Counted();
+            x.graph(3, 2, new int[] {0, 0, 0}, new int[] {0, 2, 1}, new int[] {0, 2, 0}, new int[] {1, 1, 1});
+            x.graph(2, 3, new int[] {2, 1, 0}, new int[] {1, 0, 2});
+            due("digest()", x.digest(), digestOf(2, 0, 0, 1, 3, 2, 4, 2, 4, 1, 0, 3, 0, 2, 0, 2, 3, 2, 0, 0, 0, 0, 4, 0, 0, 1, 0, 0, 0, 0));
+        });
+        holds("of SETS about(.., 0) to (.., 4), of STATES, of LETTERS the bits of STATES to which WAYS lead", "all sixteen bits", () -> {
+            Counted x = new Counted();
+            x.set(2, 16);
+            for (int s = 0; s < 16; s++) {
+                x.way(0, 15, 1, s);
+            }
+            long[] values = new long[4 + 5 + 32 + 4];
+            values[0] = 1;
+            values[3] = 1;
+            values[4] = 2;
+            values[5] = 16;
+            values[6] = 16;
+            values[7] = 1;
+            values[8] = 1;
+            values[40] = 65535;
+            due("digest()", x.digest(), digestOf(values));
+        });
+        holds("LETTERS of THE WORD", "none, one, three; not those that were", () -> {
+            Counted x = new Counted();
+            x.letter(3);
+            due("one", x.digest(), digestOf(0, 1, 0, 1, 3, 0, 0, 0, 0));
+            x.spell(1, 0, 2);
+            due("three", x.digest(), digestOf(0, 3, 0, 1, 1, 0, 2, 0, 0, 0, 0));
+            x.empty();
+            due("none", x.digest(), digestOf(0, 0, 0, 1, 0, 0, 0, 0));
+        });
+        holds("of FORBIDDEN WORDS how long, LETTERS", "in the order in which they were told; none that were", () -> {
+            Counted x = new Counted();
+            x.forbidJust(new int[] {1, 2, 3, 0, 1}, new int[] {3}, new int[] {3}, new int[] {0, 2});
+            due("four", x.digest(), digestOf(0, 0, 4, 1, 5, 1, 2, 3, 0, 1, 1, 3, 1, 3, 2, 0, 2, 0, 0, 0, 0));
+            x.unforbid();
+            due("none", x.digest(), digestOf(0, 0, 0, 1, 0, 0, 0, 0));
+        });
+        holds("what the WINDOW tells, by rows 0 .. 4 to the w-th less 1", "4, 16 and 64 rows, the first and the last", () -> {
+            Counted x = new Counted();
+            for (int w = 1; w <= 3; w++) {
+                x.window(w);
+                long[] values = new long[4 + (1 << 2 * w)];
+                values[3] = w;
+                due("all 0", x.digest(), digestOf(values));
+                values[4] = 2;
+                values[5] = 1;
+                values[values.length - 1] = 3;
+                x.tells(0, 2);
+                x.tells(1, 1);
+                x.tells(values.length - 5, 3);
+                due("of " + w, x.digest(), digestOf(values));
+            }
+            x.window(1);
+            due("no row of those that were", x.digest(), digestOf(0, 0, 0, 1, 0, 0, 0, 0));
+        });
     }
 }

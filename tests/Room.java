@@ -1,26 +1,26 @@
 import java.lang.management.ManagementFactory;
 
-/** What a run makes stays far below the room that all its calls have: counted in bytes, four to an element. */
+/** What a run makes stays within the room that all its calls have: counted in bytes, four to an element. */
 public final class Room {
     private static final long MOST_ELEMENTS = 7_300_000L;
 
     public static void main(String[] args) {
         // what the machine itself makes when something is first used is not the program's
-        dearRun(2);
-        cheapRun();
-        boolean fits = within("512 dear calls", made(() -> dearRun(512)), MOST_ELEMENTS / 5);
-        fits &= within("512 cheap calls", made(Room::cheapRun), MOST_ELEMENTS / 500);
+        dearRun(100);
+        cheapRun(100);
+        boolean fits = within("512 dear calls", made(() -> dearRun(0)));
+        fits &= within("512 cheap calls", made(() -> cheapRun(0)));
         if (!fits) {
             System.exit(1);
         }
     }
 
-    private static boolean within(String what, long bytes, long most) {
+    private static boolean within(String what, long bytes) {
         System.out.println(what + " make " + bytes / 4 + " elements");
-        if (bytes / 4 <= most) {
+        if (bytes / 4 <= MOST_ELEMENTS) {
             return true;
         }
-        System.out.println("above " + most);
+        System.out.println("above " + MOST_ELEMENTS);
         return false;
     }
 
@@ -32,47 +32,43 @@ public final class Room {
         return threads.getThreadAllocatedBytes(id) - before;
     }
 
-    private static void dearRun(int calls) {
-        RowRules x = new RowRules();
-        x.set(2, 16);
-        for (int s = 0; s < 16; s++) {
-            x.way(0, s, 0, (s + 1) % 16);
-            if (s < 15) {
-                x.way(0, s, 1, s + 1);
-            }
-        }
-        x.set(2, 1);
-        x.way(1, 0, 0, 0);
-        x.way(1, 0, 1, 0);
+    /** A ring for which all 65535 sets of STATES are met, asked for all that is dear. */
+    private static void dearRun(int callsToSpare) {
+        Counted x = new Counted();
+        int ring = x.losingRing(16);
+        int all = x.all(2);
         x.tells(1, 1);
-        for (int i = x.count(0) + 36; i < calls; i++) {
+        for (int i = 0; x.callsLeft() > callsToSpare; i++) {
             switch (i % 11) {
-                case 0: x.same(0, 0); break;
-                case 1: x.maps(1, 0); break;
-                case 2: x.rounds(0, 7); break;
-                case 3: x.loops(0, 10); break;
-                case 4: x.growth(0, 9, 2); break;
-                case 5: x.weights(0, 1, 4, 100); break;
-                case 6: x.pace(0, 3); break;
-                case 7: x.about(0, 5); break;
+                case 0: x.same(ring, ring); break;
+                case 1: x.maps(all, ring); break;
+                case 2: x.rounds(ring, 7); break;
+                case 3: x.loops(ring, 10); break;
+                case 4: x.growth(ring, 9, 2); break;
+                case 5: x.weights(ring, 1, 4, 100); break;
+                case 6: x.pace(ring, 3); break;
+                case 7: x.about(ring, 5); break;
                 case 8: x.digest(); break;
-                case 9: x.same(1, 0); break;
-                default: x.howMany(0, 24);
+                case 9: x.same(all, ring); break;
+                default: x.howMany(ring, 24);
             }
         }
     }
 
-    private static void cheapRun() {
-        RowRules x = new RowRules();
-        for (int i = 0; i < 512; i++) {
-            x.set(4, 16);
-            x.byWords(4);
-            x.letter(1);
-            x.forbid();
-            x.window(3);
-            x.same(0, 1);
-            x.maps(1, 0);
-            x.howMany(1, 24);
+    /** SETS, also those for which there is no room, and small questions. */
+    private static void cheapRun(int callsToSpare) {
+        Counted x = new Counted();
+        for (int i = 0; x.callsLeft() > callsToSpare; i++) {
+            switch (i % 8) {
+                case 0: x.set(4, 16); break;
+                case 1: x.byWords(4); break;
+                case 2: x.letter(1); break;
+                case 3: x.forbid(); break;
+                case 4: x.window(3); break;
+                case 5: x.same(0, 1); break;
+                case 6: x.maps(1, 0); break;
+                default: x.howMany(1, 24);
+            }
         }
     }
 }
