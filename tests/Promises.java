@@ -436,6 +436,16 @@ public final class Promises {
             due("WAYS", x.about(set, 2), 3);
             due("00 is gone", x.way(set, 0, 0, 0), 1);
         });
+        holds("None is to be FORBIDDEN any more: how many were", "nor do their LETTERS, that a SET has not", () -> {
+            Counted x = new Counted();
+            x.spell(3, 2, 3, 2, 3);
+            x.forbid();
+            x.unforbid();
+            x.spell(1);
+            x.forbid();
+            due("byWords(2)", x.byWords(2), 0);
+            due("WAYS", x.about(0, 2), 1);
+        });
         holds("None is to be FORBIDDEN any more: how many were", "SETS that were made BY WORDS stay", () -> {
             Counted x = new Counted();
             int golden = x.golden();
@@ -855,6 +865,7 @@ public final class Promises {
             x.spell(3, 3, 3);
             due("same", x.same(nought, all), 0);
             Sentences.due("THE WORD", x.word(), "1");
+            due("what was behind is gone", x.letterAt(1), NONE);
             due("same", x.same(golden, all), 0);
             Sentences.due("THE WORD", x.word(), "11");
             due("it MAY STAND in one alone", x.may(all) * 2 + x.may(golden), 2);

@@ -349,6 +349,13 @@ public final class Terms {
             x.way(set, 1, 1, 1);
             due("a 1 behind and ahead of all", x.howMany(set, 24), 1 << 24);
         });
+        holds(words, "WAYS that are not LIVE add none", () -> {
+            Counted x = new Counted();
+            int set = x.graph(2, 3, new int[] {0, 0, 0}, new int[] {0, 1, 1}, new int[] {2, 1, 0});
+            for (int n = 0; n <= 24; n++) {
+                due("n " + n, x.howMany(set, n), 1);
+            }
+        });
         holds(words, "all 65535 sets of STATES are needed", () -> {
             Counted x = new Counted();
             int ring = x.losingRing(16);
@@ -493,6 +500,18 @@ public final class Terms {
             });
         holds("the least and the greatest of (what it is then by what it was), over LIVE STATES, in lowest terms",
             "fractions whose products a long does not hold", Terms::nearFractions);
+        holds("the least and the greatest of (what it is then by what it was), over LIVE STATES, in lowest terms",
+            "2 and 5 by 2, 3 and 7 by 2: of like whole parts", () -> {
+                Counted x = new Counted();
+                // by STATES: 5 by 2, 2, 2, 7 by 3; then 3, 7 by 2, 13 by 4, 8 by 3
+                int first = x.graph(2, 4, new int[] {0, 0, 2}, new int[] {0, 1, 3}, new int[] {1, 0, 1}, new int[] {1, 1, 0},
+                    new int[] {2, 0, 2}, new int[] {2, 1, 2}, new int[] {3, 0, 2}, new int[] {3, 1, 2}, new int[] {3, 1, 3});
+                growthIs(x, first, 1, "2 1 5 2");
+                int second = x.graph(3, 4, new int[] {1, 0, 0}, new int[] {1, 1, 2}, new int[] {3, 0, 3}, new int[] {3, 1, 1}, new int[] {3, 2, 0},
+                    new int[] {0, 0, 0}, new int[] {0, 1, 0}, new int[] {0, 2, 0},
+                    new int[] {2, 0, 0}, new int[] {2, 1, 0}, new int[] {2, 2, 0}, new int[] {2, 2, 2});
+                growthIs(x, second, 1, "8 3 7 2");
+            });
     }
 
     /** Four STATES with all WAYS but one: v of STATE 0 and v of the others, with 3 or 4 WAYS to STATE 0. */
@@ -867,6 +886,21 @@ public final class Terms {
                 x.tells(ones, 1);
                 due("11.. to 1", x.maps(one, nought), 0);
                 due("11.. to 1", x.maps(one, one), 1);
+            }
+        });
+        holds(words, "by LIVE WAYS alone, in a and in b", () -> {
+            Counted x = new Counted();
+            int nought = x.only(2, 1);
+            int dying = x.graph(2, 3, new int[] {0, 0, 0}, new int[] {0, 1, 1}, new int[] {2, 1, 0});
+            int all = x.all(2);
+            for (int w = 1; w <= 3; w++) {
+                x.window(w);
+                for (int row = 1; row < 1 << 2 * w; row++) {
+                    x.tells(row, 1);
+                }
+                due("1 does not stand in a", x.maps(dying, nought), 1);
+                due("1 does not stand in b", x.maps(all, dying), 0);
+                due("0 alone", x.maps(nought, dying), 1);
             }
         });
         holds(words, "window by window: each LETTER but the first w - 1 ends one", () -> {
