@@ -49,8 +49,21 @@ public final class Promises {
         Sentences.refused(x, want, call, answer);
     }
 
+    /** Asked on an object that is filled: all that it holds stays. */
+    private static void asked(Counted x, long want, String call, java.util.function.LongSupplier answer) {
+        Sentences.refused(x, want, call, answer);
+    }
+
     private static int[] outside(int least, int most) {
         return Sentences.outside(least, most);
+    }
+
+    private static void holdsJust(Counted x, Held want) {
+        due("what it holds, by digest()", x.digest(), want.digest());
+    }
+
+    private static long digestOf(long... values) {
+        return Held.digestOf(values);
     }
 
     // ---- promise 1
@@ -93,9 +106,15 @@ public final class Promises {
             x.set(4, 16);
             x.letter(0);
             x.window(1);
-            due("count(0) of the other", other.count(0), 1);
-            due("count(1) of the other", other.count(1), 3);
-            due("count(3) of the other", other.count(3), 3);
+            x.unforbid();
+            x.forbid();
+            Held h = new Held();
+            h.sets.add(new int[] {2, 2, 3, 2, 3, 1, 2, 1, 0});
+            h.forbidden.add(new int[] {1, 1});
+            h.word = new int[] {1, 2, 3};
+            h.window(3);
+            h.told[0] = 2;
+            holdsJust(other, h);
         });
     }
 
@@ -113,6 +132,13 @@ public final class Promises {
                     due("about " + what, x.about(i, what), want[what]);
                 }
             }
+        });
+        holds("A SET without WAYS: its number", "all else stays", () -> {
+            Counted x = Counted.filled();
+            Held h = Held.filled();
+            due("set", x.set(4, 1), 2);
+            h.sets.add(new int[] {4, 1, 0, 0, 0, 0, 0, 0, 0});
+            holdsJust(x, h);
         });
         holds("BAD", "less than 2 LETTERS, more than 4", () -> {
             Counted x = new Counted();
@@ -160,6 +186,13 @@ public final class Promises {
             due("WAYS of 1", x.about(1, 2), 1);
             due("the like one of 0", x.way(0, 0, 1, 1), 1);
         });
+        holds("A WAY: 1", "all else stays", () -> {
+            Counted x = Counted.filled();
+            Held h = Held.filled();
+            due("way", x.way(0, 1, 1, 1), 1);
+            h.sets.set(0, new int[] {2, 2, 4, 2, 4, 1, 2, 1, 2});
+            holdsJust(x, h);
+        });
         badWays("way", Counted::way);
         holds("NO: it is there", "alike, in a SET by hand and in one BY WORDS", () -> {
             Counted x = new Counted();
@@ -184,12 +217,21 @@ public final class Promises {
             due("LIVE WAYS", x.about(0, 4), 1);
             due("way", x.way(0, 1, 0, 0), 1);
             due("LIVE WAYS", x.about(0, 4), 4);
+            due("of two between the same STATES", x.unway(0, 0, 0, 1), 1);
+            due("the other stays", x.way(0, 0, 1, 1), NO);
         });
         holds("A WAY goes: 1", "the last one, of the last STATE and LETTER", () -> {
             Counted x = new Counted();
             x.graph(4, 16, new int[] {15, 3, 15});
             due("unway", x.unway(0, 15, 3, 15), 1);
             due("digest()", x.digest(), digestOfWays());
+        });
+        holds("A WAY goes: 1", "all else stays", () -> {
+            Counted x = Counted.filled();
+            Held h = Held.filled();
+            due("unway", x.unway(0, 0, 0, 0), 1);
+            h.sets.set(0, new int[] {2, 2, 2, 2, 2, 0, 2, 1, 0});
+            holdsJust(x, h);
         });
         badWays("unway", Counted::unway);
         holds("NO: there is none", "none at all; unlike in one number; gone already", () -> {
@@ -272,6 +314,13 @@ public final class Promises {
             due("letterAt(0)", x.letterAt(0), NONE);
             due("letter(2)", x.letter(2), 1);
         });
+        holds("THE WORD is empty: how long it was", "all else stays", () -> {
+            Counted x = Counted.filled();
+            Held h = Held.filled();
+            due("empty()", x.empty(), 3);
+            h.word = new int[0];
+            holdsJust(x, h);
+        });
         holds("THE WORD is empty: how long it was", "WORDS to be FORBIDDEN stay", () -> {
             Counted x = new Counted();
             x.spell(1, 1);
@@ -290,6 +339,13 @@ public final class Promises {
                 due("letter", x.letter((i + i / 4) % 4), i + 1);
             }
             Sentences.due("THE WORD", x.word(), "012312302301301201231230230130");
+        });
+        holds("A LETTER (0 .. 3) comes behind THE WORD: how long it is", "all else stays", () -> {
+            Counted x = Counted.filled();
+            Held h = Held.filled();
+            due("letter(2)", x.letter(2), 4);
+            h.word = new int[] {0, 1, 0, 2};
+            holdsJust(x, h);
         });
         holds("BAD", "below 0, above 3", () -> {
             Counted x = new Counted();
@@ -329,6 +385,11 @@ public final class Promises {
             for (int i = 0; i < 30; i++) {
                 due("letterAt(" + i + ")", x.letterAt(i), i * 7 / 3 & 3);
             }
+        });
+        holds("LETTER i of THE WORD", "nothing changes", () -> {
+            Counted x = Counted.filled();
+            asked(x, 1, "letterAt(1)", () -> x.letterAt(1));
+            asked(x, NONE, "letterAt(3)", () -> x.letterAt(3));
         });
         holds("NONE: not so long", "just behind the last of 0, 1, 29 and 30", () -> {
             Counted x = new Counted();
@@ -381,6 +442,13 @@ public final class Promises {
             x.spell(1);
             due("1 may not", x.may(set), 0);
         });
+        holds("THE WORD is one of those to be FORBIDDEN (1 .. 5 LETTERS): how many", "all else stays", () -> {
+            Counted x = Counted.filled();
+            Held h = Held.filled();
+            due("forbid()", x.forbid(), 2);
+            h.forbidden.add(new int[] {0, 1, 0});
+            holdsJust(x, h);
+        });
         holds("NO: its length", "0, 6 and 30 LETTERS", () -> {
             Counted x = new Counted();
             refused(x, NO, "0", () -> x.forbid());
@@ -423,6 +491,13 @@ public final class Promises {
             due("count(2)", x.count(2), 0);
             due("all WAYS", x.about(x.byWords(2), 2), 4);
             due("THE WORD stays", x.count(1), 2);
+        });
+        holds("None is to be FORBIDDEN any more: how many were", "all else stays", () -> {
+            Counted x = Counted.filled();
+            Held h = Held.filled();
+            due("unforbid()", x.unforbid(), 1);
+            h.forbidden.clear();
+            holdsJust(x, h);
         });
         holds("None is to be FORBIDDEN any more: how many were", "longer ones leave nothing behind in shorter ones", () -> {
             Counted x = new Counted();
@@ -480,6 +555,13 @@ public final class Promises {
             due("a WAY more", x.way(0, 1, 1, 1), 1);
             due("all", x.howMany(0, 10), 1024);
             due("not in the other", x.may(1), 0);
+        });
+        holds("A SET BY WORDS: its number", "all else stays", () -> {
+            Counted x = Counted.filled();
+            Held h = Held.filled();
+            due("byWords(3)", x.byWords(3), 2);
+            h.sets.add(new int[] {3, 3, 8, 3, 8, 1, 2, 4, 1, 0, 4, 1, 2, 4});
+            holdsJust(x, h);
         });
         holds("BAD: also a FORBIDDEN WORD with a LETTER that it has not", "less than 2 LETTERS, more than 4", () -> {
             Counted x = new Counted();
@@ -571,6 +653,16 @@ public final class Promises {
                 }
             }
         });
+        holds("Of a SET: 0 LETTERS, 1 STATES, 2 WAYS, 3 LIVE STATES, 4 LIVE WAYS, 5 PARTS", "nothing changes", () -> {
+            Counted x = Counted.filled();
+            int[] want = {2, 2, 3, 2, 3, 1};
+            for (int i = 0; i < 6; i++) {
+                int what = i;
+                asked(x, want[i], "about(0, " + i + ")", () -> x.about(0, what));
+            }
+        });
+        byTurns("Of a SET: 0 LETTERS, 1 STATES, 2 WAYS, 3 LIVE STATES, 4 LIVE WAYS, 5 PARTS", "about 4 and 5",
+            (x, set) -> 10 * x.about(set, 4) + x.about(set, 5), 31, 41, 32);
         holds("BAD", "nothing to tell: below 0, above 5", () -> {
             Counted x = new Counted();
             x.golden();
@@ -590,6 +682,25 @@ public final class Promises {
             }
             x.unway(0, 15, 1, 0);
             due("no more", x.live(0, 0) + x.live(0, 15), 0);
+        });
+        holds("Whether a STATE is LIVE: 1, 0", "nothing changes", () -> {
+            Counted x = Counted.filled();
+            int set = x.graph(2, 2, new int[] {0, 0, 0});
+            asked(x, 1, "live(0, 1)", () -> x.live(0, 1));
+            asked(x, 0, "live(2, 1)", () -> x.live(set, 1));
+        });
+        holds("Whether a STATE is LIVE: 1, 0", "of SETS by turns, and as their WAYS are then", () -> {
+            Counted x = new Counted();
+            int first = x.graph(2, 2, new int[] {0, 0, 0}, new int[] {0, 1, 1});
+            int second = x.graph(2, 2, new int[] {0, 0, 1}, new int[] {1, 1, 0});
+            for (int i = 0; i < 2; i++) {
+                due("live(0, 1)", x.live(first, 1), 0);
+                due("live(1, 1)", x.live(second, 1), 1);
+            }
+            x.unway(second, 1, 1, 0);
+            due("live(1, 1), a WAY less", x.live(second, 1), 0);
+            x.way(second, 1, 0, 0);
+            due("live(1, 1), a WAY more", x.live(second, 1), 1);
         });
         badSetsAndStates("live", Counted::live);
     }
@@ -635,6 +746,35 @@ public final class Promises {
             x.way(set, s, 0, (s + 1) % states);
         }
         return set;
+    }
+
+    /** Of golden, of all WORDS, and of those with one 1 at most; then with a WAY more, and a WAY less. */
+    private static void byTurns(String words, String name, java.util.function.ToLongBiFunction<Counted, Integer> ask,
+        long ofGolden, long ofAll, long ofSeldom) {
+        holds(words, "of SETS by turns, and as their WAYS are then", () -> {
+            Counted x = new Counted();
+            int golden = x.golden();
+            int all = x.byForbidding(2);
+            int seldom = x.graph(2, 2, new int[] {0, 0, 0}, new int[] {1, 1, 0}, new int[] {1, 0, 1});
+            due("golden, to be asked with", x.golden(), 3);
+            x.spell(1, 1);
+            x.tells(1, 1);
+            for (int i = 0; i < 2; i++) {
+                due(name + " of golden", ask.applyAsLong(x, golden), ofGolden);
+                due(name + " of all", ask.applyAsLong(x, all), ofAll);
+                due(name + " of one 1 at most", ask.applyAsLong(x, seldom), ofSeldom);
+            }
+            x.unway(seldom, 1, 1, 0);
+            x.way(seldom, 0, 1, 1);
+            x.unway(seldom, 1, 0, 1);
+            x.way(seldom, 1, 0, 0);
+            due(name + " of golden by hand", ask.applyAsLong(x, seldom), ofGolden);
+            x.way(seldom, 1, 1, 1);
+            due(name + ", a WAY more", ask.applyAsLong(x, seldom), ofAll);
+            x.unway(seldom, 1, 1, 1);
+            due(name + ", a WAY less", ask.applyAsLong(x, seldom), ofGolden);
+            due(name + " of the others, as ever", ask.applyAsLong(x, all), ofAll);
+        });
     }
 
     private static void badSets(String name, java.util.function.ToLongBiFunction<Counted, Integer> call) {
@@ -691,6 +831,13 @@ public final class Promises {
             x.letter(3);
             due("with one that it has not", x.may(0), 0);
         });
+        holds("Whether THE WORD MAY STAND: 1, 0 (also with a LETTER that the SET has not)", "nothing changes", () -> {
+            Counted x = Counted.filled();
+            asked(x, 1, "may(0)", () -> x.may(0));
+            x.letter(2);
+            asked(x, 0, "may(0)", () -> x.may(0));
+        });
+        byTurns("Whether THE WORD MAY STAND: 1, 0 (also with a LETTER that the SET has not)", "11 may", (x, set) -> x.may(set), 0, 1, 0);
         badSets("may", (x, set) -> x.may(set));
     }
 
@@ -721,6 +868,11 @@ public final class Promises {
             due("nothing LIVE, 0", x.howMany(none, 0), 0);
             due("nothing LIVE, 24", x.howMany(none, 24), 0);
         });
+        holds("HOW MANY", "nothing changes", () -> {
+            Counted x = Counted.filled();
+            asked(x, 13, "howMany(0, 5)", () -> x.howMany(0, 5));
+        });
+        byTurns("HOW MANY", "howMany 10", (x, set) -> x.howMany(set, 10), 144, 1024, 11);
         badSets("howMany", (x, set) -> x.howMany(set, 3));
         badNumbers("howMany", 0, 24, (x, n) -> x.howMany(0, n));
     }
@@ -738,6 +890,11 @@ public final class Promises {
             due("9 of a ring of 10", x.loops(ring, 9), 0);
             due("10 of a ring of 10", x.loops(ring, 10), 10);
         });
+        holds("LOOPS", "nothing changes", () -> {
+            Counted x = Counted.filled();
+            asked(x, 7, "loops(0, 4)", () -> x.loops(0, 4));
+        });
+        byTurns("LOOPS", "loops 10", (x, set) -> x.loops(set, 10), 123, 1024, 2);
         badSets("loops", (x, set) -> x.loops(set, 3));
         badNumbers("loops", 1, 10, (x, n) -> x.loops(0, n));
     }
@@ -758,6 +915,11 @@ public final class Promises {
             due("6 of 1000000", x.rounds(seven, 6), 0);
             due("7 of 1000000", x.rounds(seven, 7), 7);
         });
+        holds("ROUNDS", "nothing changes", () -> {
+            Counted x = Counted.filled();
+            asked(x, 7, "rounds(0, 4)", () -> x.rounds(0, 4));
+        });
+        byTurns("ROUNDS", "rounds 7", (x, set) -> x.rounds(set, 7), 29, 128, 1);
         badSets("rounds", (x, set) -> x.rounds(set, 3));
         badNumbers("rounds", 1, 7, (x, n) -> x.rounds(0, n));
     }
@@ -782,6 +944,15 @@ public final class Promises {
                 }
             }
         });
+        holds("GROWTH: what = 0, 1 the least above, below, 2, 3 the greatest", "nothing changes", () -> {
+            Counted x = Counted.filled();
+            long[] want = {8, 5, 5, 3};
+            for (int i = 0; i < 4; i++) {
+                int what = i;
+                asked(x, want[i], "growth(0, 3, " + i + ")", () -> x.growth(0, 3, what));
+            }
+        });
+        byTurns("GROWTH: what = 0, 1 the least above, below, 2, 3 the greatest", "the greatest, below, by 3", (x, set) -> x.growth(set, 3, 3), 3, 1, 4);
         badSets("growth", (x, set) -> x.growth(set, 3, 0));
         badNumbers("growth by t", 0, 9, (x, t) -> x.growth(0, t, 0));
         badNumbers("growth, what", 0, 3, (x, what) -> x.growth(0, 3, what));
@@ -816,6 +987,22 @@ public final class Promises {
             due("same with itself", x.same(golden, golden), 1);
             due("digest", x.digest(), before);
         });
+        holds("Whether two SETS are THE SAME: 1", "11 MAY STAND in neither, then in one, then in both", () -> {
+            Counted x = new Counted();
+            x.golden();
+            x.byWords(2);
+            for (int i = 0; i < 2; i++) {
+                due("in neither", x.same(0, 1), 1);
+                x.way(1, 1, 1, 1);
+                due("in one", x.same(0, 1), 0);
+                x.way(0, 1, 1, 1);
+                due("in both", x.same(0, 1), 1);
+                x.unway(1, 1, 1, 1);
+                due("in the other", x.same(0, 1), 0);
+                x.unway(0, 1, 1, 1);
+            }
+        });
+        byTurns("Whether two SETS are THE SAME: 1", "same as golden", (x, set) -> x.same(set, 3), 1, 0, 0);
         wordThatParts();
         badSets("same, the first", (x, set) -> x.same(set, 0));
         badSets("same, the other", (x, set) -> x.same(0, set));
@@ -870,6 +1057,14 @@ public final class Promises {
             Sentences.due("THE WORD", x.word(), "11");
             due("it MAY STAND in one alone", x.may(all) * 2 + x.may(golden), 2);
             due("a LETTER comes behind it", x.letter(0), 3);
+        });
+        holds(words, "all else stays", () -> {
+            Counted x = Counted.filled();
+            Held h = Held.filled();
+            due("same", x.same(0, x.all(2)), 0);
+            h.sets.add(new int[] {2, 1, 2, 1, 2, 1, 1});
+            h.word = new int[] {1, 1};
+            holdsJust(x, h);
         });
         holds(words, "29 and 30 LETTERS: all of them", () -> {
             for (int n = 27; n <= 28; n++) {
@@ -935,6 +1130,11 @@ public final class Promises {
                 refused(x, NONE, "part(0, " + s + ")", () -> x.part(0, state));
             }
         });
+        holds("The PART of a STATE", "nothing changes", () -> {
+            Counted x = Counted.filled();
+            asked(x, 0, "part(0, 1)", () -> x.part(0, 1));
+        });
+        byTurns("The PART of a STATE", "part of STATE 1", (x, set) -> x.part(set, 1), 0, 0, 1);
         badSetsAndStates("part", Counted::part);
     }
 
@@ -974,6 +1174,23 @@ public final class Promises {
                 refused(x, NONE, "pace(0, " + s + ")", () -> x.pace(0, state));
             }
         });
+        holds("THE PACE of a STATE's PART", "nothing changes", () -> {
+            Counted x = Counted.filled();
+            asked(x, 1, "pace(0, 1)", () -> x.pace(0, 1));
+        });
+        holds("THE PACE of a STATE's PART", "of SETS by turns, and as their WAYS are then", () -> {
+            Counted x = new Counted();
+            int four = liveRing(x, 4);
+            int six = x.graph(2, 6, new int[] {1, 0, 2}, new int[] {2, 0, 3}, new int[] {3, 0, 1}, new int[] {0, 1, 0});
+            for (int i = 0; i < 2; i++) {
+                due("a ring of 4", x.pace(four, 1), 4);
+                due("a ring of 3, as many WAYS", x.pace(six, 1), 3);
+            }
+            x.way(four, 3, 1, 2);
+            due("a ring of 2 in that of 4", x.pace(four, 1), 2);
+            x.unway(four, 3, 1, 2);
+            due("a ring of 4 again", x.pace(four, 1), 4);
+        });
         badSetsAndStates("pace", Counted::pace);
     }
 
@@ -995,6 +1212,17 @@ public final class Promises {
             for (int row = 0; row < 64; row++) {
                 due("row " + row, x.tells(row, 1), 0);
             }
+        });
+        holds("A WINDOW of w, all 0: 1", "all else stays", () -> {
+            Counted x = Counted.filled();
+            Held h = Held.filled();
+            due("window(3)", x.window(3), 1);
+            h.window(3);
+            holdsJust(x, h);
+            x.tells(0, 3);
+            due("window(1)", x.window(1), 1);
+            h.window(1);
+            holdsJust(x, h);
         });
         holds("BAD", "less than 1, more than 3: what was told stays", () -> {
             Counted x = new Counted();
@@ -1023,6 +1251,15 @@ public final class Promises {
                     due("what it was", x.tells(row, 3), (row * 5 + w) % 4);
                 }
             }
+        });
+        holds(words, "all else stays", () -> {
+            Counted x = Counted.filled();
+            Held h = Held.filled();
+            due("tells(5, 3)", x.tells(5, 3), 1);
+            due("tells(15, 2)", x.tells(15, 2), 0);
+            h.told[5] = 3;
+            h.told[15] = 2;
+            holdsJust(x, h);
         });
         holds(words, "rows that no SET has, and LETTERS that none has", () -> {
             Counted x = new Counted();
@@ -1094,6 +1331,13 @@ public final class Promises {
             due("333 to 3", x.maps(four, all), 0);
             due("333 to 3", x.maps(four, four), 1);
         });
+        holds("Whether it MAPS a SET into another one: 1, 0", "nothing changes, whatever it answers", () -> {
+            Counted x = Counted.filled();
+            asked(x, 1, "maps(0, 1)", () -> x.maps(0, 1));
+            asked(x, 0, "maps(1, 0)", () -> x.maps(1, 0));
+        });
+        byTurns("Whether it MAPS a SET into another one: 1, 0", "into golden", (x, set) -> x.maps(set, 3), 1, 0, 1);
+        byTurns("Whether it MAPS a SET into another one: 1, 0", "golden into it", (x, set) -> x.maps(3, set), 1, 1, 0);
         badSets("maps, from", (x, set) -> x.maps(set, 0));
         badSets("maps, into", (x, set) -> x.maps(0, set));
         holds("SPENT", "more than 20000 sets, nothing fails; later calls answer as ever", () -> {
@@ -1148,6 +1392,11 @@ public final class Promises {
             due("no WAYS", x.weights(x.set(4, 16), 1, 1, 100), 0);
             due("a chain", x.weights(x.graph(2, 2, new int[] {0, 0, 1}), 1, 4, 100), 0);
         });
+        holds("THE WEIGHTS' sum (0: there are none such)", "nothing changes", () -> {
+            Counted x = Counted.filled();
+            asked(x, 16, "weights(0, 2, 3, 10)", () -> x.weights(0, 2, 3, 10));
+        });
+        byTurns("THE WEIGHTS' sum (0: there are none such)", "2 in 3, 10 at most", (x, set) -> x.weights(set, 2, 3, 10), 16, 20, 0);
         badCoders("weights", Counted::weights);
     }
 
@@ -1176,6 +1425,11 @@ public final class Promises {
             }
             due("nothing LIVE", x.weight(x.set(4, 16), 1, 1, 1, 15), 0);
         });
+        holds("A STATE's of THE WEIGHTS (0: not LIVE)", "nothing changes", () -> {
+            Counted x = Counted.filled();
+            asked(x, 6, "weight(0, 2, 3, 10, 1)", () -> x.weight(0, 2, 3, 10, 1));
+        });
+        byTurns("A STATE's of THE WEIGHTS (0: not LIVE)", "of STATE 1, 2 in 3, 10 at most", (x, set) -> x.weight(set, 2, 3, 10, 1), 6, 10, 0);
         badCoders("weight", (x, set, p, q, most) -> x.weight(set, p, q, most, 0));
         badSetsAndStates("weight", (x, set, state) -> x.weight(set, 1, 1, 1, state));
     }
@@ -1210,10 +1464,22 @@ public final class Promises {
             x.unforbid();
             countsAre(x, 6, 0, 0, 2);
         });
+        countIsAsked();
         holds("BAD", "below 0, above 3", () -> {
             Counted x = new Counted();
             for (int odd : outside(0, 3)) {
                 refused(x, BAD, "count(" + odd + ")", () -> x.count(odd));
+            }
+        });
+    }
+
+    private static void countIsAsked() {
+        holds("How many: 0 SETS, 1 LETTERS of THE WORD, 2 WORDS to be FORBIDDEN, 3 w", "nothing changes", () -> {
+            Counted x = Counted.filled();
+            int[] want = {2, 3, 1, 2};
+            for (int i = 0; i < 4; i++) {
+                int what = i;
+                asked(x, want[i], "count(" + i + ")", () -> x.count(what));
             }
         });
     }
@@ -1225,15 +1491,6 @@ public final class Promises {
     }
 
     // ---- promise 27
-
-    /** By big numbers, of which the last 64 bits are told: so the wrap-around is the test's own. */
-    private static long digestOf(long... values) {
-        java.math.BigInteger h = java.math.BigInteger.valueOf(193);
-        for (long v : values) {
-            h = h.multiply(java.math.BigInteger.valueOf(31)).add(java.math.BigInteger.valueOf(v));
-        }
-        return h.longValue();
-    }
 
     /** Of an object with one SET of four LETTERS and sixteen STATES, of which just 15 may be LIVE, and 0 if it leads to 15. */
     private static long digestOfWays(int[]... ways) {
@@ -1260,6 +1517,12 @@ public final class Promises {
             Counted x = new Counted();
             due("digest()", x.digest(), digestOf(0, 0, 0, 1, 0, 0, 0, 0));
             due("again", x.digest(), digestOf(0, 0, 0, 1, 0, 0, 0, 0));
+        });
+        holds("h = 193", "all together, and nothing changes by asking", () -> {
+            Counted x = Counted.filled();
+            long want = Held.filled().digest();
+            asked(x, want, "digest()", () -> x.digest());
+            due("the third", x.digest(), want);
         });
         holds("then h = 31 h + v for each v: count(0) to count(3)", "in their order, with the wrap-around of a long", () -> {
             Counted x = new Counted();

@@ -1,8 +1,12 @@
 import java.lang.management.ManagementFactory;
 
-/** What a run makes stays within the room that all its calls have: counted in bytes, four to an element. */
+/**
+ * What a run makes stays within the room that all its calls have: counted in bytes, of which an int takes four and an
+ * object sixteen at least; rows of smaller numbers than int the class has none.
+ */
 public final class Room {
     private static final long MOST_ELEMENTS = 7_300_000L;
+    private static final long MOST_OBJECTS = 600_000L;
 
     public static void main(String[] args) {
         // what the machine itself makes when something is first used is not the program's
@@ -16,11 +20,11 @@ public final class Room {
     }
 
     private static boolean within(String what, long bytes) {
-        System.out.println(what + " make " + bytes / 4 + " elements");
-        if (bytes / 4 <= MOST_ELEMENTS) {
+        System.out.println(what + " make at most " + bytes / 4 + " elements, " + bytes / 16 + " objects");
+        if (bytes / 4 <= MOST_ELEMENTS && bytes / 16 <= MOST_OBJECTS) {
             return true;
         }
-        System.out.println("above " + MOST_ELEMENTS);
+        System.out.println("above " + MOST_ELEMENTS + " or " + MOST_OBJECTS);
         return false;
     }
 

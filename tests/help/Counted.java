@@ -51,6 +51,17 @@ final class Counted {
 
     // ---- what many tests build
 
+    /** It holds what Held.filled tells. */
+    static Counted filled() {
+        Counted x = new Counted();
+        x.golden();
+        x.all(3);
+        x.spell(0, 1, 0);
+        x.window(2);
+        x.tells(5, 1);
+        return x;
+    }
+
     /** THE WORD is these LETTERS, and no others. */
     void spell(int... letters) {
         empty();
